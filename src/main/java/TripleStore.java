@@ -260,16 +260,43 @@ public final class TripleStore {
     public int run() {
         int typed = length;
         length = 0;
-        fault = 0;
         shown = null;
         shownRows = 0;
         blocks.planned = 0;
         terms.dropLoose();
-        rows.begin(3, 0, Math.min(MAX_MADE, MAX_LIFE - spent));
-        Node statement = parser.statement(typed);
-        int answer = tokens.fault == 0 ? perform(statement) : 0;
-        if (tokens.fault != 0) {
-            fault = tokens.fault;
+        rows.begin(0, 0, 0);
+        tokens.read(typed);
+        Node s = parser.statement();
+        fault = tokens.fault;
+        if (fault == 0) {
+            fill(s);
+        }
+        int answer = 0;
+        switch (fault == 0 ? s.kind : 0) {
+            case 0:
+                break;
+            case SELECT:
+                answer = show(s);
+                break;
+            case ASK:
+                answer = rows.top > 0 ? 1 : 0;
+                break;
+            case CONSTRUCT:
+                answer = construct(s);
+                break;
+            case RULE:
+                answer = addRule(s);
+                break;
+            case UNRULE:
+                answer = dropRule(s.count);
+                break;
+            case CLEAR:
+                answer = triples.sayings;
+                triples.clear();
+                rules.choices = 0;
+                break;
+            default:
+                answer = change(s);
         }
         account(typed);
         return fault == 0 ? answer : -100 - fault;
@@ -397,35 +424,14 @@ public final class TripleStore {
         }
     }
 
-    private int perform(Node s) {
-        switch (s.kind) {
-            case SELECT:
-                return showSelect(s);
-            case ASK:
-                fill(s);
-                return rows.top > 0 ? 1 : 0;
-            case CONSTRUCT:
-                return showFacts(s);
-            case RULE:
-                return addRule(s);
-            case UNRULE:
-                return dropRule(s.count);
-            case CLEAR:
-                int was = triples.sayings;
-                triples.clear();
-                rules.choices = 0;
-                return was;
-            default:
-                return change(s);
-        }
-    }
-
     /** Makes the plans and does the statement's group, if it has one; else there is the empty row. */
     private void fill(Node s) {
-        rows.begin(parser.tokens.variables, parser.keyed ? MAX_KEYS : 0, Math.min(MAX_MADE, MAX_LIFE - spent));
-        triples.arrange();
-        blocks.planAll(parser.firstBlock);
+        rows.begin(tokens.variables, parser.keyed ? MAX_KEYS : 0, Math.min(MAX_MADE, MAX_LIFE - spent));
         groups.begin();
+        if (s.inner != null) {
+            triples.arrange();
+            blocks.planAll(parser.firstBlock);
+        }
         if (s.kind == SELECT) {
             groups.select(s, 0);
         } else {
@@ -439,24 +445,8 @@ public final class TripleStore {
         }
     }
 
-    private int showSelect(Node s) {
-        fill(s);
-        shown = s;
-        shownRows = rows.top;
-        return shownRows;
-    }
-
-    private int showFacts(Node s) {
-        fill(s);
-        int end = rows.top;
-        give(s.first, end, true);
-        rows.close(end, 0);
-        rows.compareNone();
-        for (int i = 0; i < 3; i++) {
-            rows.compareBy(i, false);
-            s.list(i);
-        }
-        rows.sort(0, rows.top);
+    /** All rows that are there are the result. */
+    private int show(Node s) {
         if (rows.over) {
             fault = TOO_MUCH;
         }
@@ -465,15 +455,24 @@ public final class TripleStore {
         return shownRows;
     }
 
+    private int construct(Node s) {
+        int end = rows.top;
+        give(s.first, end, true);
+        rows.close(end, 0);
+        rows.compareTriples();
+        rows.sort(0, rows.top);
+        for (int i = 0; i < 3; i++) {
+            s.list(i);
+        }
+        return show(s);
+    }
+
     /** Puts behind all rows the triples that facts give for the first rows, each once. */
     private void give(Node facts, int givers, boolean counted) {
         if (facts == null) {
             return;
         }
-        rows.compareNone();
-        for (int i = 0; i < 3; i++) {
-            rows.compareBy(i, false);
-        }
+        rows.compareTriples();
         rows.beginSeen(Math.min(MAX_ROWS, givers * facts.size));
         for (int r = 0; r < givers && !rows.over; r++) {
             for (Node f = facts.first; f != null && !rows.over; f = f.next) {
@@ -510,7 +509,6 @@ public final class TripleStore {
         if (come != null && come.kind != INSERT) {
             come = null;
         }
-        fill(s);
         int givers = rows.top;
         give(gone, givers, s.inner != null);
         int middle = rows.top;
@@ -520,9 +518,19 @@ public final class TripleStore {
             return 0;
         }
         int before = terms.numbered;
+        int end = rows.top;
         triples.backUp();
-        int changed = applyChange(givers, middle);
-        if (fault != 0) {
+        int changed = unsay(givers, middle);
+        if (changed > 0) {
+            triples.keepSaid();
+        }
+        if (numberTerms(middle, end)) {
+            changed += say(middle, end);
+        } else {
+            fault = NO_ROOM;
+        }
+        if (fault != 0 || !rules.follow()) {
+            fault = NO_ROOM;
             terms.forget(before);
             triples.restore();
             rules.follow();
@@ -530,30 +538,22 @@ public final class TripleStore {
         return changed;
     }
 
-    /** The triples of the rows up to middle are said no more, then those behind are said. */
-    private int applyChange(int from, int middle) {
+    private int unsay(int from, int to) {
         int changed = 0;
-        int end = rows.top;
-        for (int r = from; r < middle; r++) {
+        for (int r = from; r < to; r++) {
             changed += triples.unsay(rows.get(r, 0), rows.get(r, 1), rows.get(r, 2));
         }
-        if (!numberTerms(middle, end)) {
-            fault = NO_ROOM;
-            return 0;
-        }
-        if (changed > 0) {
-            triples.keepSaid();
-        }
-        for (int r = middle; r < end; r++) {
+        return changed;
+    }
+
+    private int say(int from, int to) {
+        int changed = 0;
+        for (int r = from; r < to && fault == 0; r++) {
             int news = triples.say(rows.get(r, 0), rows.get(r, 1), rows.get(r, 2));
             if (news < 0) {
                 fault = NO_ROOM;
-                return 0;
             }
             changed += news;
-        }
-        if (!rules.follow()) {
-            fault = NO_ROOM;
         }
         return changed;
     }
@@ -592,6 +592,7 @@ public final class TripleStore {
 
     private int addRule(Node s) {
         int body = 0;
+        rows.top = 0;
         for (Node facts = s.first; facts != null; facts = facts.next) {
             for (Node f = facts.first; f != null; f = f.next) {
                 int row = rows.push();
@@ -700,8 +701,8 @@ public final class TripleStore {
         }
 
         boolean lists(int item) {
-            for (int i = 0; i < size; i++) {
-                if (listed(i) == item) {
+            for (int i = 0; list != null && i < size && i < list.length; i++) {
+                if (list[i] == item) {
                     return true;
                 }
             }
@@ -834,7 +835,8 @@ public final class TripleStore {
 
         boolean isSame(Value other) {
             return kind == other.kind && number == other.number && scale == other.scale
-                && compareBytes(text, 0, length, other.text, 0, other.length) == 0 && sameExtra(other);
+                && compareBytes(text, 0, length, other.text, 0, other.length) == 0
+                && compareBytes(extra, 0, extraLength, other.extra, 0, other.extraLength) == 0;
         }
 
         boolean hasAt(int place, Value part) {
@@ -1005,11 +1007,13 @@ public final class TripleStore {
         }
 
         private boolean isKnown(int id) {
-            return isNumber(id) || id > MAX_TERMS && id < free && id < MAX_IDS;
+            return id >= 1 && id <= numbered || id > MAX_TERMS && id < free && id < MAX_IDS;
         }
 
+        /** A term's kind; 0 for no term. */
         int kindOf(int id) {
-            return isKnown(id) ? kinds[id] : 0;
+            boolean known = id >= 1 && id <= numbered || id > MAX_TERMS && id < free && id < MAX_IDS;
+            return known ? kinds[id] : 0;
         }
 
         /** Whether these may be a triple's subject and predicate. */
@@ -1050,11 +1054,6 @@ public final class TripleStore {
             v.id = free;
             free++;
             return v.id;
-        }
-
-        int nameOf(String bytes) {
-            scratch.spell(NAME, bytes);
-            return intern(scratch);
         }
 
         private int nextOf(int id) {
@@ -1195,14 +1194,17 @@ public final class TripleStore {
             if (a == b) {
                 return 0;
             }
-            if (!isKnown(a) || !isKnown(b)) {
-                return Integer.compare(kindOf(a), kindOf(b));
+            int kindA = kindOf(a);
+            int kindB = kindOf(b);
+            if (kindA == 0 || kindB == 0) {
+                return Integer.compare(kindA, kindB);
             }
-            int by = Integer.compare(rank(kinds[a]), rank(kinds[b]));
-            if (by == 0 && (kinds[a] == WHOLE || kinds[a] == DECIMAL)) {
-                by = compareNumbers(a, b);
-                return by != 0 ? by : Integer.compare(kinds[a], kinds[b]);
+            boolean isNumber = kindA == WHOLE || kindA == DECIMAL;
+            if (isNumber && (kindB == WHOLE || kindB == DECIMAL)) {
+                int byValue = compareNumbers(a, b);
+                return byValue != 0 ? byValue : Integer.compare(kindA, kindB);
             }
+            int by = Integer.compare(kindA, kindB);
             if (by == 0) {
                 by = Long.compare(numbers[a], numbers[b]);
             }
@@ -1213,25 +1215,16 @@ public final class TripleStore {
                 bytesOf(b), starts[b] + lengths[b], extras[b]);
         }
 
-        private int rank(int kind) {
-            return kind == DECIMAL ? WHOLE : kind;
-        }
-
         private int compareNumbers(int a, int b) {
-            if (scales[a] == scales[b]) {
-                return Long.compare(numbers[a], numbers[b]);
-            }
-            long wholeA = Math.floorDiv(numbers[a], ten(scales[a]));
-            long wholeB = Math.floorDiv(numbers[b], ten(scales[b]));
+            int scaleA = Math.max(0, Math.min(scales[a], MAX_SCALE));
+            int scaleB = Math.max(0, Math.min(scales[b], MAX_SCALE));
+            long wholeA = Math.floorDiv(numbers[a], TEN[scaleA]);
+            long wholeB = Math.floorDiv(numbers[b], TEN[scaleB]);
             if (wholeA != wholeB) {
                 return Long.compare(wholeA, wholeB);
             }
-            return Long.compare(Math.floorMod(numbers[a], ten(scales[a])) * ten(MAX_SCALE - scales[a]),
-                Math.floorMod(numbers[b], ten(scales[b])) * ten(MAX_SCALE - scales[b]));
-        }
-
-        private long ten(int scale) {
-            return scale >= 0 && scale <= MAX_SCALE ? TEN[scale] : 1;
+            return Long.compare(Math.floorMod(numbers[a], TEN[scaleA]) * TEN[MAX_SCALE - scaleA],
+                Math.floorMod(numbers[b], TEN[scaleB]) * TEN[MAX_SCALE - scaleB]);
         }
 
         /** Writes a term: how many bytes. */
@@ -1312,6 +1305,7 @@ public final class TripleStore {
         private final int[] lengths = new int[3 * (DIGIT + 1)];
         private final int[] nexts = new int[3 * MAX_TRIPLES];
         private final int[][] sorted = new int[6][MAX_TRIPLES];
+        private final int[][] starts = new int[6][DIGIT + 2];   // where keys that begin with a number do
         private final int[] spare = new int[MAX_TRIPLES];
         private final int[] counters = new int[DIGIT + 2];
         private final int[] saved = new int[MAX_TRIPLES];
@@ -1328,7 +1322,7 @@ public final class TripleStore {
             return s > 0 && s <= MAX_TERMS && p > 0 && p <= MAX_TERMS && o > 0 && o <= MAX_TERMS;
         }
 
-        private static int pack(int s, int p, int o) {
+        static int pack(int s, int p, int o) {
             return s << 20 | p << 10 | o;
         }
 
@@ -1354,17 +1348,9 @@ public final class TripleStore {
         }
 
         /** Adds a triple that does not hold yet: whether there was room. */
-        boolean hold(int s, int p, int o, boolean isSaid) {
-            if (size >= MAX_TRIPLES || !fits(s, p, o)) {
-                return false;
-            }
-            put(pack(s, p, o), isSaid);
-            return true;
-        }
-
-        private void put(int key, boolean isSaid) {
+        boolean hold(int key, boolean isSaid) {
             if (size >= MAX_TRIPLES) {
-                return;
+                return false;
             }
             keys[size] = key;
             marks[size] = (byte) (isSaid ? 1 : 0);
@@ -1372,13 +1358,14 @@ public final class TripleStore {
             slots[slotOf(key)] = size + 1;
             size++;
             arranged = false;
+            return true;
         }
 
         /** 1 when the triple is newly said, 0 when it was said before, -1 without room. */
         int say(int s, int p, int o) {
             int index = seek(s, p, o);
             if (index < 0 || index >= MAX_TRIPLES) {
-                return hold(s, p, o, true) ? 1 : -1;
+                return fits(s, p, o) && hold(pack(s, p, o), true) ? 1 : -1;
             }
             if (marks[index] == 1) {
                 return 0;
@@ -1415,7 +1402,7 @@ public final class TripleStore {
             clear();
             for (int i = 0; i < were && i < MAX_TRIPLES; i++) {
                 if (marks[i] == 1) {
-                    put(keys[i], true);
+                    hold(keys[i], true);
                 }
             }
         }
@@ -1434,7 +1421,7 @@ public final class TripleStore {
         void restore() {
             clear();
             for (int i = 0; i < savedSize && i < MAX_TRIPLES; i++) {
-                put(saved[i], true);
+                hold(saved[i], true);
             }
         }
 
@@ -1495,6 +1482,8 @@ public final class TripleStore {
                 sortBy(spare, row, 10);
                 sortBy(row, spare, 20);
                 System.arraycopy(spare, 0, row, 0, Math.min(size, MAX_TRIPLES));
+                starts[q][0] = 0;
+                System.arraycopy(counters, 0, starts[q], 1, DIGIT + 1);
             }
             arranged = true;
         }
@@ -1526,9 +1515,23 @@ public final class TripleStore {
             return sorted[q][k] >> SHIFTS[3 * q + part] & DIGIT;
         }
 
-        private int lowest(int[] row, int key) {
-            int low = 0;
-            int high = Math.min(size, row.length);
+        /** Where the triples of an ordering begin whose first number is so great at least. */
+        int startOf(int q, int number) {
+            return q >= 0 && q <= 5 && number >= 0 && number <= DIGIT ? starts[q][number] : 0;
+        }
+
+        /** Whether a term is subject or object of a triple. */
+        boolean isPoint(int term) {
+            if (term < 0 || term >= DIGIT) {
+                return false;
+            }
+            return starts[0][term + 1] > starts[0][term] || starts[4][term + 1] > starts[4][term];
+        }
+
+        /** The first place of a row between two where a key is so great at least. */
+        private int lowest(int[] row, int key, int least, int most) {
+            int low = least;
+            int high = most;
             for (int i = 0; i < 32 && low < high; i++) {
                 int middle = (low + high) / 2;
                 if (middle < 0 || middle >= row.length || row[middle] >= key) {
@@ -1543,10 +1546,15 @@ public final class TripleStore {
         /** Finds from where to where the triples of an ordering begin with n numbers. */
         void locate(int q, int n, int a, int b, int c) {
             order = Math.max(0, Math.min(5, q));
-            int key = pack(a, b, c);
-            int width = n == 0 ? DIGIT << 20 : n == 1 ? 1 << 20 : n == 2 ? 1 << 10 : 1;
-            from = lowest(sorted[order], key);
-            to = lowest(sorted[order], key + width);
+            int first = Math.max(0, Math.min(a, DIGIT));
+            from = n == 0 ? 0 : starts[order][first];
+            to = n == 0 ? size : starts[order][first + 1];
+            if (n > 1) {
+                int key = pack(a, b, c);
+                int end = to;
+                from = lowest(sorted[order], key, from, end);
+                to = lowest(sorted[order], key + (n == 2 ? 1 << 10 : 1), from, end);
+            }
         }
 
         /** Finds the triples with those of three terms that are not 0; none for terms without numbers. */
@@ -1638,16 +1646,18 @@ public final class TripleStore {
             return !failed;
         }
 
-        private int partAt(int rule, int pattern, int place) {
-            int at = rule * PARTS + 3 * pattern + place;
-            return at >= 0 && at < parts.length ? parts[at] : 0;
-        }
-
         /** The term that stands in a pattern's place by now; 0 when there is none yet. */
         private int termAt(int rule, int pattern, int place) {
-            int part = partAt(rule, pattern, place);
+            int at = rule * PARTS + 3 * pattern + place;
+            int part = at >= 0 && at < parts.length ? parts[at] : 0;
             int variable = -1 - part;
             return part >= 0 || variable >= MAX_VARIABLES ? part : chosen[variable];
+        }
+
+        /** The variable that stands in a pattern's place; below 0 for a term. */
+        private int variableAt(int rule, int pattern, int place) {
+            int at = rule * PARTS + 3 * pattern + place;
+            return at >= 0 && at < parts.length ? -1 - parts[at] : -1;
         }
 
         /** Takes a triple for a pattern: the variables that got their term by that; -1 if it does not fit. */
@@ -1656,7 +1666,7 @@ public final class TripleStore {
             for (int place = 0; place < 3; place++) {
                 int is = triples.keyPart(index, place);
                 int due = termAt(rule, pattern, place);
-                int variable = -1 - partAt(rule, pattern, place);
+                int variable = variableAt(rule, pattern, place);
                 if (due == 0 && variable >= 0 && variable < MAX_VARIABLES) {
                     chosen[variable] = is;
                     bound |= 1 << variable;
@@ -1748,7 +1758,8 @@ public final class TripleStore {
                 int s = termAt(rule, k, 0);
                 int p = termAt(rule, k, 1);
                 int o = termAt(rule, k, 2);
-                if (terms.mayStand(s, p) && triples.seek(s, p, o) < 0 && !triples.hold(s, p, o, false)) {
+                boolean isNew = terms.mayStand(s, p) && triples.seek(s, p, o) < 0;
+                if (isNew && !triples.hold(Triples.pack(s, p, o), false)) {
                     failed = true;
                     return;
                 }
@@ -1761,9 +1772,8 @@ public final class TripleStore {
         private final byte[] text;
         private final Terms terms;
         private final byte[] kinds = new byte[MAX_TEXT + 2];
-        private final int[] codes = new int[MAX_TEXT + 2];      // a term's id, a word, a sign
+        private final int[] codes = new int[MAX_TEXT + 2];      // a term's id, a variable, a word, a sign
         private final int[] places = new int[MAX_TEXT + 2];
-        private final int[] ends = new int[MAX_TEXT + 2];
         private final byte[] names = new byte[MAX_VARIABLES * MAX_VARIABLE_NAME];
         private final int[] nameLengths = new int[MAX_VARIABLES];
         private final Value value = new Value();
@@ -1771,8 +1781,13 @@ public final class TripleStore {
         private int size;
         private int length;     // of the text
         private int at;         // how far it is read
-        private int hand;       // which token is at hand
-        int variables;
+        private int named;      // how many variables it has, up to one too many
+        private int typeName;   // the name that the word a stands for
+        private int hand;       // which token is at hand: its kind, code and place
+        private int kind;
+        private int code;
+        int here;
+        int variables;          // how many were taken
         int fault;
         int faultPlace;
 
@@ -1786,6 +1801,7 @@ public final class TripleStore {
             length = Math.max(0, Math.min(textLength, text.length));
             size = 0;
             at = 0;
+            named = 0;
             hand = -1;
             variables = 0;
             fault = 0;
@@ -1825,18 +1841,63 @@ public final class TripleStore {
                 readWord(start);
                 return true;
             }
-            if (b == '?' && isWordByte(byteAt(start + 1))) {
-                note(AT_VARIABLE, 0, start, wordEnd(start + 1, MAX_VARIABLE_NAME));
-                return true;
+            int end = start;
+            switch (b) {
+                case '?':
+                    return readVariable(start);
+                case '_':
+                    end = byteAt(start + 1) == ':' ? readShort(BLANK, start + 2, start) : start;
+                    break;
+                case ':':
+                    end = readShort(NAME, start + 1, start);
+                    break;
+                case '<':
+                    end = readName(start);
+                    break;
+                case '"':
+                    end = readText(start);
+                    break;
+                default:
+                    boolean mayBegin = isDigit(b) || b == '.' || (b == '+' || b == '-') && !isBehindValue();
+                    end = mayBegin ? numberIn(text, start, length, value) : start;
             }
-            int end = readTerm(start, b);
             if (end > start) {
                 noteTerm(start, end);
                 return true;
             }
-            int sign = sign(b, byteAt(start + 1));
+            return readSign(start, b);
+        }
+
+        private boolean readSign(int start, int b) {
+            int sign = signOf(b, byteAt(start + 1));
             note(sign == 0 ? AT_NOTHING : AT_SIGN, sign, start, start + (sign > TWO ? 2 : 1));
             return sign != 0;
+        }
+
+        /** Reads a variable, or the sign ? alone. Variables get their numbers as they come. */
+        private boolean readVariable(int start) {
+            int from = start + 1;
+            int bytes = wordEnd(from, MAX_VARIABLE_NAME) - from;
+            if (bytes == 0) {
+                return readSign(start, '?');
+            }
+            int variable = named;
+            for (int v = 0; v < named && v < MAX_VARIABLES && variable == named; v++) {
+                boolean same = nameLengths[v] == bytes;
+                for (int i = 0; i < bytes && i < MAX_VARIABLE_NAME && same; i++) {
+                    same = names[v * MAX_VARIABLE_NAME + i] == byteAt(from + i);
+                }
+                variable = same ? v : variable;
+            }
+            if (variable == named && named < MAX_VARIABLES) {
+                nameLengths[named] = bytes;
+                for (int i = 0; i < bytes && i < MAX_VARIABLE_NAME; i++) {
+                    names[named * MAX_VARIABLE_NAME + i] = (byte) byteAt(from + i);
+                }
+                named++;
+            }
+            note(AT_VARIABLE, variable, start, from + bytes);
+            return true;
         }
 
         private void note(int kind, int code, int start, int end) {
@@ -1844,7 +1905,6 @@ public final class TripleStore {
                 kinds[size] = (byte) kind;
                 codes[size] = code;
                 places[size] = start;
-                ends[size] = end;
                 size++;
             }
             at = end;
@@ -1864,7 +1924,12 @@ public final class TripleStore {
                 noteTerm(start, end);
             } else {
                 int word = wordIn(KEYWORDS, start, end, 1);
-                note(AT_WORD, word != 0 ? word : wordIn(FUNCTIONS, start, end, IF), start, end);
+                word = word != 0 ? word : wordIn(FUNCTIONS, start, end, IF);
+                if (word == WORD_A) {
+                    value.spell(NAME, "type");
+                    typeName = terms.intern(value);
+                }
+                note(AT_WORD, word, start, end);
             }
         }
 
@@ -1905,25 +1970,6 @@ public final class TripleStore {
                 return false;
             }
             return kinds[last] == AT_TERM || kinds[last] == AT_VARIABLE || kinds[last] == AT_SIGN && codes[last] == ')';
-        }
-
-        /** Reads a term that is no word: its end, or start where there is none. */
-        private int readTerm(int start, int b) {
-            switch (b) {
-                case '_':
-                    return byteAt(start + 1) == ':' ? readShort(BLANK, start + 2, start) : start;
-                case ':':
-                    return readShort(NAME, start + 1, start);
-                case '<':
-                    return readName(start);
-                case '"':
-                    return readText(start);
-                case '+':
-                case '-':
-                    return isBehindValue() ? start : numberIn(text, start, length, value);
-                default:
-                    return isDigit(b) || b == '.' ? numberIn(text, start, length, value) : start;
-            }
         }
 
         private int readShort(int kind, int from, int start) {
@@ -2072,8 +2118,10 @@ public final class TripleStore {
             return true;
         }
 
+        /** The digit at a place; -1 where there is none. */
         private static int digitIn(byte[] bytes, int i, int to) {
-            return i >= 0 && i < to && i < bytes.length && isDigit(bytes[i]) ? bytes[i] - '0' : -1;
+            int digit = i >= 0 && i < to && i < bytes.length ? bytes[i] - '0' : -1;
+            return digit <= 9 ? Math.max(-1, digit) : -1;
         }
 
         private static boolean isIn(byte[] bytes, int i, int to, int b) {
@@ -2122,7 +2170,7 @@ public final class TripleStore {
             return end;
         }
 
-        private static int sign(int b, int then) {
+        private static int signOf(int b, int then) {
             switch (b) {
                 case '!':
                 case '>':
@@ -2156,72 +2204,72 @@ public final class TripleStore {
 
         // What follows is asked of the token at hand.
 
-        private boolean isAt(int kind) {
-            return fault == 0 && hand >= 0 && hand < size && hand < kinds.length && kinds[hand] == kind;
-        }
-
-        private int code() {
-            return hand >= 0 && hand < codes.length ? codes[hand] : 0;
-        }
-
-        int here() {
-            return hand >= 0 && hand < places.length ? places[hand] : 0;
-        }
-
         boolean isEnd() {
-            return isAt(AT_END);
+            return kind == AT_END;
         }
 
         boolean isTerm() {
-            return isAt(AT_TERM);
+            return kind == AT_TERM;
         }
 
         boolean isVariable() {
-            return isAt(AT_VARIABLE);
+            return kind == AT_VARIABLE;
         }
 
         boolean isNode() {
-            return isTerm() || isVariable();
+            return kind == AT_TERM || kind == AT_VARIABLE;
         }
 
         boolean isSign(int sign) {
-            return isAt(AT_SIGN) && code() == sign;
+            return kind == AT_SIGN && code == sign;
         }
 
         int sign() {
-            return isAt(AT_SIGN) ? code() : 0;
+            return kind == AT_SIGN ? code : 0;
         }
 
         boolean isWord(int word) {
-            return isAt(AT_WORD) && code() == word;
+            return kind == AT_WORD && code == word;
         }
 
         int word() {
-            return isAt(AT_WORD) ? code() : 0;
+            return kind == AT_WORD ? code : 0;
         }
 
         int id() {
-            return isTerm() ? code() : 0;
+            return kind == AT_TERM ? code : 0;
         }
 
         int termKind() {
-            return terms.kindOf(id());
+            return kind == AT_TERM ? terms.kindOf(code) : 0;
+        }
+
+        /** The id of a NAME, or of what the word a stands for; 0 for other tokens. */
+        int nameId() {
+            if (kind == AT_TERM && terms.kindOf(code) == NAME) {
+                return code;
+            }
+            return kind == AT_WORD && code == WORD_A ? typeName : 0;
         }
 
         /** Takes the token: the next one is at hand. */
         void take() {
-            if (fault != 0) {
+            if (fault != 0 || hand + 1 >= size || hand + 1 >= kinds.length) {
                 return;
             }
             hand++;
-            if (isAt(AT_NOTHING)) {
-                fail(NO_TOKEN);
+            kind = kinds[hand];
+            code = codes[hand];
+            here = places[hand];
+            if (kind == AT_NOTHING) {
+                fault = NO_TOKEN;
+                faultPlace = here;
             }
         }
 
         /** Takes it if it is what is wanted; else that is a fault. */
         void expectSign(int sign) {
-            if (isSign(sign)) {
+            if (kind == AT_SIGN && code == sign) {
                 take();
             } else {
                 fail(OUT_OF_PLACE);
@@ -2229,59 +2277,38 @@ public final class TripleStore {
         }
 
         void expectWord(int word) {
-            if (isWord(word)) {
+            if (kind == AT_WORD && code == word) {
                 take();
             } else {
                 fail(OUT_OF_PLACE);
             }
         }
 
-        void fail(int code) {
-            failAt(code, here());
+        void fail(int newFault) {
+            failAt(newFault, here);
         }
 
-        /** The first fault is the one that counts. */
-        void failAt(int code, int place) {
+        /** The first fault is the one that counts; nothing is at hand any more. */
+        void failAt(int newFault, int place) {
             if (fault == 0) {
-                fault = code;
+                fault = newFault;
                 faultPlace = place;
+                kind = AT_NOTHING;
             }
         }
 
-        /** The variable at hand, if the text had it before; else -1. */
-        int knownVariable() {
-            int start = here() + 1;
-            int bytes = hand >= 0 && hand < ends.length ? ends[hand] - start : 0;
-            for (int v = 0; v < variables && v < MAX_VARIABLES; v++) {
-                boolean same = nameLengths[v] == bytes;
-                for (int i = 0; i < bytes && i < MAX_VARIABLE_NAME && same; i++) {
-                    same = names[v * MAX_VARIABLE_NAME + i] == byteAt(start + i);
-                }
-                if (same) {
-                    return v;
-                }
-            }
-            return -1;
+        boolean isNewVariable() {
+            return kind == AT_VARIABLE && code >= variables;
         }
 
         /** The variable at hand; a fault when it is one more than there may be. */
         int variable() {
-            int known = knownVariable();
-            if (known >= 0) {
-                return known;
-            }
-            if (variables >= MAX_VARIABLES) {
-                fail(NO_SPACE);
+            if (kind != AT_VARIABLE || code >= MAX_VARIABLES) {
+                failAt(kind == AT_VARIABLE ? NO_SPACE : OUT_OF_PLACE, here);
                 return 0;
             }
-            int v = variables;
-            variables++;
-            int start = here() + 1;
-            nameLengths[v] = wordEnd(start, MAX_VARIABLE_NAME) - start;
-            for (int i = 0; i < nameLengths[v]; i++) {
-                names[v * MAX_VARIABLE_NAME + i] = (byte) byteAt(start + i);
-            }
-            return v;
+            variables = Math.max(variables, code + 1);
+            return code;
         }
 
         /** Writes a variable's name: how many bytes. */
@@ -2289,7 +2316,7 @@ public final class TripleStore {
             if (v < 0 || v >= variables || v >= MAX_VARIABLES) {
                 return 0;
             }
-            for (int i = 0; i < nameLengths[v]; i++) {
+            for (int i = 0; i < nameLengths[v] && i < MAX_VARIABLE_NAME; i++) {
                 putByte(out, i, names[v * MAX_VARIABLE_NAME + i]);
             }
             return nameLengths[v];
@@ -2330,7 +2357,7 @@ public final class TripleStore {
         }
 
         /** Reads a statement; where it has a fault, the tokens have it. */
-        Node statement(int length) {
+        Node statement() {
             valuesUsed = 0;
             nodes = 0;
             groups = 0;
@@ -2340,69 +2367,50 @@ public final class TripleStore {
             lastBlock = null;
             firstBlock = null;
             keyed = false;
-            tokens.read(length);
-            Node s = new Node(tokens.word(), tokens.here());
-            readStatement(s);
+            Node s = new Node(tokens.word(), tokens.here);
+            if (s.kind == SELECT) {
+                select(s, 0);
+            } else if (s.kind == UNRULE) {
+                tokens.take();
+                s.count = whole();
+            } else if (s.kind == ASK || s.kind >= CONSTRUCT && s.kind <= CLEAR && s.kind != DATA) {
+                tokens.take();
+                boolean hasGroup = s.kind == ASK || parts(s);
+                if (hasGroup && s.kind != ASK) {
+                    tokens.expectWord(WHERE);
+                }
+                s.inner = hasGroup ? group(1) : null;
+            } else {
+                tokens.fail(OUT_OF_PLACE);
+            }
             if (!tokens.isEnd()) {
                 tokens.fail(OUT_OF_PLACE);
             }
             return s;
         }
 
-        private void readStatement(Node s) {
-            switch (s.kind) {
-                case SELECT:
-                    select(s, 0);
-                    break;
-                case ASK:
-                    tokens.take();
-                    s.inner = group(1);
-                    break;
-                case CONSTRUCT:
-                    tokens.take();
-                    facts(s, CONSTRUCT, IN_TEMPLATE);
-                    where(s);
-                    break;
-                case INSERT:
-                case DELETE:
-                    change(s);
-                    break;
-                case RULE:
-                    tokens.take();
-                    facts(s, RULE, IN_BODY);
-                    tokens.expectSign(TWO + '=');
-                    facts(s, RULE, IN_HEAD);
-                    break;
-                case UNRULE:
-                    tokens.take();
-                    s.count = whole();
-                    break;
-                case CLEAR:
-                    tokens.take();
-                    break;
-                default:
-                    tokens.fail(OUT_OF_PLACE);
+        /** Reads the facts of a statement: whether a group comes behind them. */
+        private boolean parts(Node s) {
+            if (s.kind == CLEAR) {
+                return false;
             }
-        }
-
-        private void where(Node s) {
-            tokens.expectWord(WHERE);
-            s.inner = group(1);
-        }
-
-        private void change(Node s) {
-            tokens.take();
-            if (tokens.isWord(DATA)) {
+            if (s.kind == RULE) {
+                facts(s, RULE, IN_BODY);
+                tokens.expectSign(TWO + '=');
+                facts(s, RULE, IN_HEAD);
+                return false;
+            }
+            if (s.kind != CONSTRUCT && tokens.isWord(DATA)) {
                 tokens.take();
                 facts(s, s.kind, IN_DATA);
-                return;
+                return false;
             }
             facts(s, s.kind, IN_TEMPLATE);
             if (s.kind == DELETE && tokens.isWord(INSERT)) {
                 tokens.take();
                 facts(s, INSERT, IN_TEMPLATE);
             }
-            where(s);
+            return true;
         }
 
         /** A WHOLE that is not below 0, at most as great as anything that is counted. */
@@ -2419,7 +2427,7 @@ public final class TripleStore {
         // Facts.
 
         private void facts(Node s, int kind, int way) {
-            Node facts = s.add(new Node(kind, tokens.here()));
+            Node facts = s.add(new Node(kind, tokens.here));
             tokens.expectSign('{');
             boolean more = true;
             for (int i = 0; i <= MAX_TEXT && more; i++) {
@@ -2438,21 +2446,30 @@ public final class TripleStore {
         }
 
         private void fact(Node facts, int way) {
-            int subject = factNode(way, true);
+            refuseVariable(way);
+            int subject = node(true);
             boolean moreVerbs = true;
             for (int i = 0; i <= MAX_TEXT && moreVerbs; i++) {
-                int verb = tokens.isVariable() ? factNode(way, false) : name();
+                refuseVariable(way);
+                int verb = tokens.isVariable() ? node(false) : name();
                 boolean moreObjects = true;
                 for (int k = 0; k <= MAX_TEXT && moreObjects; k++) {
-                    Node fact = new Node(FACT, tokens.here());
+                    Node fact = new Node(FACT, tokens.here);
+                    refuseVariable(way);
                     fact.subject = subject;
                     fact.verb = verb;
-                    fact.object = factNode(way, false);
+                    fact.object = node(false);
                     facts.add(fact);
                     facts.size++;
                     moreObjects = takeIf(',');
                 }
                 moreVerbs = takeIf(';');
+            }
+        }
+
+        private void refuseVariable(int way) {
+            if (tokens.isVariable() && way == IN_DATA || tokens.isNewVariable() && way == IN_HEAD) {
+                tokens.fail(FORBIDDEN);
             }
         }
 
@@ -2462,14 +2479,6 @@ public final class TripleStore {
                 tokens.take();
             }
             return there;
-        }
-
-        private int factNode(int way, boolean isSubject) {
-            boolean strange = way == IN_DATA || way == IN_HEAD && tokens.knownVariable() < 0;
-            if (tokens.isVariable() && strange) {
-                tokens.fail(FORBIDDEN);
-            }
-            return node(isSubject);
         }
 
         /** A TERM or VAR: its id, or -1 - variable. */
@@ -2486,17 +2495,11 @@ public final class TripleStore {
             return slot;
         }
 
-        private boolean isName() {
-            return tokens.isWord(WORD_A) || tokens.termKind() == NAME;
-        }
-
         /** A NAME, or the word a: its id. */
         private int name() {
-            int id = tokens.id();
-            if (!isName()) {
+            int id = tokens.nameId();
+            if (id == 0) {
                 tokens.fail(OUT_OF_PLACE);
-            } else if (tokens.isWord(WORD_A)) {
-                id = terms.nameOf("type");
             }
             tokens.take();
             return id;
@@ -2512,7 +2515,7 @@ public final class TripleStore {
             }
             if (tokens.isSign('*')) {
                 s.star = true;
-                s.at = tokens.here();
+                s.at = tokens.here;
                 tokens.take();
             } else {
                 items(s, ITEM, open);
@@ -2532,7 +2535,7 @@ public final class TripleStore {
                     tokens.fail(NO_SPACE);
                 }
                 many++;
-                item(s.add(new Node(kind, tokens.here())), kind == ITEM ? s : null, open);
+                item(s.add(new Node(kind, tokens.here)), kind == ITEM ? s : null, open);
             }
             if (many == 0) {
                 tokens.fail(OUT_OF_PLACE);
@@ -2554,12 +2557,8 @@ public final class TripleStore {
 
         /** The VAR behind AS. */
         private void target(Node item) {
-            item.at = tokens.here();
-            if (tokens.isVariable()) {
-                item.variable = tokens.variable();
-            } else {
-                tokens.fail(OUT_OF_PLACE);
-            }
+            item.at = tokens.here;
+            item.variable = tokens.variable();
             tokens.take();
         }
 
@@ -2572,7 +2571,7 @@ public final class TripleStore {
             }
             if (tokens.isWord(HAVING)) {
                 s.grouped = true;
-                Node having = s.add(new Node(HAVING, tokens.here()));
+                Node having = s.add(new Node(HAVING, tokens.here));
                 tokens.take();
                 bracketed(having, s, open);
             }
@@ -2587,7 +2586,7 @@ public final class TripleStore {
 
         private void amount(Node s, int word) {
             if (tokens.isWord(word)) {
-                Node amount = s.add(new Node(word, tokens.here()));
+                Node amount = s.add(new Node(word, tokens.here));
                 tokens.take();
                 amount.count = whole();
             }
@@ -2611,7 +2610,7 @@ public final class TripleStore {
                     tokens.fail(NO_SPACE);
                 }
                 many++;
-                Node key = s.add(new Node(KEY, tokens.here()));
+                Node key = s.add(new Node(KEY, tokens.here));
                 if (tokens.isVariable()) {
                     Node leaf = leaf(VARIABLE);
                     leaf.variable = tokens.variable();
@@ -2686,7 +2685,7 @@ public final class TripleStore {
 
         /** Reads a group; never null. */
         private Node group(int open) {
-            Node g = new Node(GROUP, tokens.here());
+            Node g = new Node(GROUP, tokens.here);
             if (!tokens.isSign('{')) {
                 tokens.fail(OUT_OF_PLACE);
             } else if (open > MAX_NESTED || groups >= MAX_GROUPS) {
@@ -2699,7 +2698,7 @@ public final class TripleStore {
             g.count = 1;
             tokens.take();
             if (tokens.isWord(SELECT)) {
-                g.inner = new Node(SELECT, tokens.here());
+                g.inner = new Node(SELECT, tokens.here);
                 select(g.inner, open);
                 bringAll(g, g.inner);
             } else {
@@ -2732,7 +2731,7 @@ public final class TripleStore {
             if (word != FILTER && word != OPTIONAL && word != MINUS && word != BIND && word != VALUES) {
                 return false;
             }
-            Node part = g.add(new Node(word, tokens.here()));
+            Node part = g.add(new Node(word, tokens.here));
             g.count++;
             tokens.take();
             if (word == FILTER) {
@@ -2751,7 +2750,7 @@ public final class TripleStore {
         }
 
         private void unions(Node g, int open) {
-            Node union = g.add(new Node(UNION, tokens.here()));
+            Node union = g.add(new Node(UNION, tokens.here));
             boolean more = true;
             for (int i = 0; i <= MAX_GROUPS && more; i++) {
                 Node one = union.add(group(open + 1));
@@ -2803,13 +2802,11 @@ public final class TripleStore {
 
         private void tableColumns(Node g, Node part, boolean many) {
             for (int i = 0; i <= MAX_COLUMNS && (i == 0 || many && tokens.isVariable()); i++) {
-                if (!tokens.isVariable()) {
-                    tokens.fail(OUT_OF_PLACE);
-                } else if (i == MAX_COLUMNS) {
+                if (i == MAX_COLUMNS) {
                     tokens.fail(NO_SPACE);
                 }
-                int place = tokens.here();
-                int variable = tokens.fault == 0 ? tokens.variable() : 0;
+                int place = tokens.here;
+                int variable = tokens.variable();
                 tokens.take();
                 refuse(part.lists(variable), place);
                 part.list(variable);
@@ -2822,7 +2819,7 @@ public final class TripleStore {
         }
 
         private void row(Node part, boolean many) {
-            Node row = part.add(new Node(GIVEN, tokens.here()));
+            Node row = part.add(new Node(GIVEN, tokens.here));
             if (many) {
                 tokens.expectSign('(');
             }
@@ -2844,46 +2841,39 @@ public final class TripleStore {
         // Lines.
 
         private void block(Node g) {
-            Node b = g.add(new Node(BLOCK, tokens.here()));
+            Node b = g.add(new Node(BLOCK, tokens.here));
             if (lastBlock == null) {
                 firstBlock = b;
             } else {
                 lastBlock.follow = b;
             }
             lastBlock = b;
+            Node line = new Node(PATTERN, 0);
             boolean more = true;
             for (int i = 0; i <= MAX_TEXT && more; i++) {
-                line(g, b);
+                line.subject = node(true);
+                bring(g, line.subject);
+                boolean moreVerbs = true;
+                for (int k = 0; k <= MAX_TEXT && moreVerbs; k++) {
+                    line.inner = null;
+                    if (tokens.isVariable()) {
+                        line.verb = node(false);
+                        bring(g, line.verb);
+                    } else {
+                        steps = 0;
+                        boolean alone = !tokens.isSign('(');
+                        Node path = path(0);
+                        line.verb = path.object;
+                        line.inner = alone && steps == 1 ? null : path;
+                    }
+                    objects(g, b, line);
+                    moreVerbs = takeIf(';');
+                }
                 more = takeIf('.') && tokens.isNode();
             }
         }
 
-        private void line(Node g, Node b) {
-            Node line = new Node(PATTERN, 0);
-            line.subject = node(true);
-            bringSlot(g, line.subject);
-            boolean more = true;
-            for (int i = 0; i <= MAX_TEXT && more; i++) {
-                line.verb = 0;
-                line.inner = null;
-                if (tokens.isVariable()) {
-                    line.verb = node(false);
-                    bringSlot(g, line.verb);
-                } else {
-                    steps = 0;
-                    boolean alone = !tokens.isSign('(');
-                    line.inner = path(0);
-                    if (alone && steps == 1) {
-                        line.verb = line.inner.object;
-                        line.inner = null;
-                    }
-                }
-                objects(g, b, line);
-                more = takeIf(';');
-            }
-        }
-
-        private void bringSlot(Node g, int slot) {
+        private void bring(Node g, int slot) {
             if (slot < 0) {
                 g.bring(-1 - slot);
             }
@@ -2892,7 +2882,7 @@ public final class TripleStore {
         private void objects(Node g, Node b, Node like) {
             boolean more = true;
             for (int i = 0; i <= MAX_TEXT && more; i++) {
-                Node line = new Node(like.inner == null ? PATTERN : PATH_LINE, tokens.here());
+                Node line = new Node(like.inner == null ? PATTERN : PATH_LINE, tokens.here);
                 boolean full = lines >= MAX_LINES || line.kind == PATTERN && b.size >= MAX_PATTERNS;
                 if (tokens.isNode() && full) {
                     tokens.fail(NO_SPACE);
@@ -2901,7 +2891,7 @@ public final class TripleStore {
                 line.verb = like.verb;
                 line.inner = like.inner;
                 line.object = node(false);
-                bringSlot(g, line.object);
+                bring(g, line.object);
                 lines++;
                 g.count++;
                 if (line.kind == PATTERN) {
@@ -2917,28 +2907,28 @@ public final class TripleStore {
         // Paths.
 
         private Node path(int level) {
-            Node choice = new Node(STEP_CHOICE, tokens.here());
+            Node choice = new Node(STEP_CHOICE, tokens.here);
             choice.add(stepRow(level));
-            while (steps <= MAX_STEPS && tokens.isSign('|')) {
+            for (int i = 0; i <= MAX_STEPS && tokens.isSign('|'); i++) {
                 step();
                 choice.add(stepRow(level));
             }
-            return choice.first == choice.last ? choice.first : choice;
+            return choice.first != null && choice.first == choice.last ? choice.first : choice;
         }
 
         /** Takes a token that counts as one of a path's steps and signs. */
         private void step() {
             if (steps >= MAX_STEPS) {
-                tokens.fail(NO_SPACE);
+                tokens.failAt(NO_SPACE, tokens.here);
             }
             steps++;
             tokens.take();
         }
 
         private Node stepRow(int level) {
-            Node row = new Node(STEP_ROW, tokens.here());
+            Node row = new Node(STEP_ROW, tokens.here);
             row.add(oneStep(level));
-            while (steps <= MAX_STEPS && tokens.isSign('/')) {
+            for (int i = 0; i <= MAX_STEPS && tokens.isSign('/'); i++) {
                 step();
                 row.add(oneStep(level));
             }
@@ -2948,14 +2938,14 @@ public final class TripleStore {
         private Node oneStep(int level) {
             Node back = null;
             if (tokens.isSign('^')) {
-                back = new Node(STEP_BACK, tokens.here());
+                back = new Node(STEP_BACK, tokens.here);
                 step();
             }
             Node one = stepItself(level);
             int sign = tokens.sign();
             if (sign == '*' || sign == '+' || sign == '?') {
                 int kind = sign == '*' ? STEP_ANY : sign == '+' ? STEP_SOME : STEP_MAYBE;
-                Node repeated = new Node(kind, tokens.here());
+                Node repeated = new Node(kind, tokens.here);
                 repeated.add(one);
                 one = repeated;
                 step();
@@ -2969,12 +2959,18 @@ public final class TripleStore {
 
         private Node stepItself(int level) {
             if (tokens.isSign('!')) {
-                Node other = new Node(STEP_OTHER, tokens.here());
+                Node other = new Node(STEP_OTHER, tokens.here);
                 step();
                 boolean many = openPath(level);
                 boolean more = true;
                 for (int i = 0; i <= MAX_STEPS && more; i++) {
-                    other.add(noneOf());
+                    boolean back = tokens.isSign('^');
+                    if (back) {
+                        step();
+                    }
+                    Node name = stepName();
+                    name.negated = back;
+                    other.add(name);
                     more = many && tokens.isSign('|');
                     if (more) {
                         step();
@@ -2995,29 +2991,23 @@ public final class TripleStore {
 
         /** Takes a bracket of a path, if there is one. */
         private boolean openPath(int level) {
-            if (tokens.isSign('(') && level >= MAX_PATH_BRACKETS) {
+            boolean there = tokens.isSign('(');
+            if (there && level >= MAX_PATH_BRACKETS) {
                 tokens.fail(NO_SPACE);
             }
-            return takeIf('(');
-        }
-
-        private Node noneOf() {
-            boolean back = tokens.isSign('^');
-            if (back) {
-                step();
+            if (there) {
+                tokens.take();
             }
-            Node name = stepName();
-            name.negated = back;
-            return name;
+            return there;
         }
 
         private Node stepName() {
-            Node name = new Node(STEP, tokens.here());
-            if (isName() && steps >= MAX_STEPS) {
-                tokens.fail(NO_SPACE);
+            Node name = new Node(STEP, tokens.here);
+            name.object = tokens.nameId();
+            if (name.object == 0) {
+                tokens.fail(OUT_OF_PLACE);
             }
-            steps++;
-            name.object = name();
+            step();
             return name;
         }
 
@@ -3053,7 +3043,7 @@ public final class TripleStore {
                 countNode();
                 fillLeaf(leaf);
             } else if (tokens.isSign('(')) {
-                openBracket(new Node(BRACKET, tokens.here()));
+                openBracket(new Node(BRACKET, tokens.here));
             } else if (tokens.isSign('!') || tokens.isSign('-')) {
                 pushSign(tokens.isSign('!') ? NEGATION : OPPOSITE);
             } else if (word == NOT || word == EXISTS) {
@@ -3193,7 +3183,7 @@ public final class TripleStore {
 
         /** A node that is worked out: it gets a place for its value. */
         private Node worthNode(int kind) {
-            Node node = new Node(kind, tokens.here());
+            Node node = new Node(kind, tokens.here);
             if (valuesUsed < values.length) {
                 if (values[valuesUsed] == null) {
                     values[valuesUsed] = new Value();
@@ -3434,19 +3424,18 @@ public final class TripleStore {
             over = over || made > limit;
         }
 
-        private int at(int row, int column) {
-            int at = row * width + column;
-            return row >= 0 && row < MAX_ROWS && column >= 0 && column < width && at < cells.length ? at : -1;
+        private boolean hasRoomFor(int row) {
+            return row >= 0 && row < MAX_ROWS && row * width + width <= cells.length;
         }
 
         int get(int row, int column) {
-            int at = at(row, column);
-            return at >= 0 ? cells[at] : 0;
+            int at = row * width + column;
+            return row >= 0 && row < MAX_ROWS && column >= 0 && column < width && at < cells.length ? cells[at] : 0;
         }
 
         void set(int row, int column, int id) {
-            int at = at(row, column);
-            if (at >= 0) {
+            int at = row * width + column;
+            if (row >= 0 && row < MAX_ROWS && column >= 0 && column < width && at < cells.length) {
                 cells[at] = id;
             }
         }
@@ -3470,7 +3459,7 @@ public final class TripleStore {
         /** A new row that gives what another one does. */
         int pushCopy(int row) {
             int copy = push();
-            if (at(row, 0) >= 0 && at(copy, 0) >= 0) {
+            if (hasRoomFor(row) && hasRoomFor(copy)) {
                 System.arraycopy(cells, row * width, cells, copy * width, variables);
             }
             return copy;
@@ -3529,7 +3518,7 @@ public final class TripleStore {
         }
 
         void move(int from, int to) {
-            if (from != to && at(from, 0) >= 0 && at(to, 0) >= 0) {
+            if (from != to && hasRoomFor(from) && hasRoomFor(to)) {
                 System.arraycopy(cells, from * width, cells, to * width, width);
             }
         }
@@ -3549,6 +3538,23 @@ public final class TripleStore {
                 columns[compared] = column;
                 downward[compared] = down;
                 compared++;
+            }
+        }
+
+        void compareVariables() {
+            compareFirst(variables);
+        }
+
+        /** By the three columns in which triples stand. */
+        void compareTriples() {
+            compareFirst(3);
+        }
+
+        private void compareFirst(int many) {
+            compared = Math.min(many, columns.length);
+            for (int i = 0; i < compared; i++) {
+                columns[i] = i;
+                downward[i] = false;
             }
         }
 
@@ -3608,7 +3614,7 @@ public final class TripleStore {
         /** Puts rows into the order found: each round of places that follow from one another in turn. */
         private void rearrange(int from, int many) {
             for (int i = 0; i < many && i < order.length; i++) {
-                if (order[i] != from + i && at(from + i, 0) >= 0) {
+                if (order[i] != from + i && hasRoomFor(from + i)) {
                     System.arraycopy(cells, (from + i) * width, held, 0, width);
                     int hole = i;
                     for (int k = 0; k < many && order[hole] != from + i; k++) {
@@ -3783,22 +3789,17 @@ public final class TripleStore {
 
         // Patterns.
 
-        /** Does a block from the bag that begins at a row. */
-        void block(Node b, int from) {
-            for (int i = 0; i < b.size && !rows.over; i++) {
-                int at = b.object + i;
-                if (at >= 0 && at < planned && at < plan.length) {
-                    patternOrPath(plan[at], from);
-                }
-            }
-            for (Node line = b.first; line != null && !rows.over; line = line.next) {
-                if (line.kind == PATH_LINE) {
-                    patternOrPath(line, from);
-                }
-            }
+        /** The pattern of a block that is done at a place; null when there is none. */
+        Node plannedAt(Node b, int i) {
+            int at = b.object + i;
+            return i >= 0 && i < b.size && at >= 0 && at < planned && at < plan.length ? plan[at] : null;
         }
 
-        private void patternOrPath(Node line, int from) {
+        /** Does a pattern or path line from the bag that begins at a row; nothing for null. */
+        void line(Node line, int from) {
+            if (line == null) {
+                return;
+            }
             int end = rows.top;
             for (int r = from; r < end && !rows.over; r++) {
                 if (line.kind == PATTERN) {
@@ -3847,56 +3848,38 @@ public final class TripleStore {
         private void pathLine(Node line, int row) {
             int s = rows.resolve(line.subject, row);
             int o = rows.resolve(line.object, row);
-            if (s != 0 || o != 0) {
-                walkFrom(line, row, s, o);
-                return;
-            }
-            for (int term = 1; term <= terms.numbered && !rows.over; term++) {
-                if (isPoint(term)) {
-                    walkFrom(line, row, term, isOneVariable(line.subject, line.object) ? term : 0);
+            boolean given = s != 0 || o != 0;
+            boolean back = s == 0 && o != 0;
+            int first = !given ? 1 : back ? o : s;
+            int last = given ? first : terms.numbered;
+            for (int term = first; term <= last && !rows.over; term++) {
+                if (given || triples.isPoint(term)) {
+                    clear(START);
+                    clear(REACHED);
+                    add(START, pointOf(term), 1, false);
+                    walk(line.inner, back ? 1 : 0, START, REACHED, REACHED + 1);
+                    int due = s != 0 && o != 0 ? o : isOneVariable(line.subject, line.object) ? term : 0;
+                    giveReached(line, row, term, back, due);
                 }
             }
-        }
-
-        private boolean isPoint(int term) {
-            triples.locateWith(term, 0, 0);
-            if (triples.to > triples.from) {
-                return true;
-            }
-            triples.locateWith(0, 0, term);
-            return triples.to > triples.from;
         }
 
         private static int pointOf(int term) {
             return term <= MAX_TERMS ? term : STRANGER;
         }
 
-        /** Gives the rows for one end that is known, or both; the other one is 0. */
-        private void walkFrom(Node line, int row, int s, int o) {
-            boolean back = s == 0;
-            int start = back ? o : s;
-            clear(START);
-            clear(REACHED);
-            add(START, pointOf(start), 1, false);
-            walk(line.inner, back ? 1 : 0, START, REACHED, REACHED + 1);
-            if (s != 0 && o != 0) {
-                boolean strange = o > MAX_TERMS && o != s;
-                giveEnds(line, row, s, o, strange ? 0 : times[REACHED][pointOf(o)]);
-                return;
-            }
+        /** Gives the rows for a start and all that was reached, or one of these, if one is due. */
+        private void giveReached(Node line, int row, int start, boolean back, int due) {
             for (int i = 0; i < pointCounts[REACHED] && !rows.over; i++) {
                 int point = points[REACHED][i];
-                int term = point == STRANGER ? start : point;
-                giveEnds(line, row, back ? term : s, back ? o : term, times[REACHED][point]);
-            }
-        }
-
-        private void giveEnds(Node line, int row, int s, int o, int often) {
-            for (int i = 0; i < often && !rows.over; i++) {
-                int made = rows.pushCopy(row);
-                give(made, line.subject, s);
-                give(made, line.object, o);
-                rows.spend(1);
+                int end = point == STRANGER ? start : point;
+                int often = due == 0 || due == end ? times[REACHED][point] : 0;
+                for (int k = 0; k < often && !rows.over; k++) {
+                    int made = rows.pushCopy(row);
+                    give(made, line.subject, back ? end : start);
+                    give(made, line.object, back ? start : end);
+                    rows.spend(1);
+                }
             }
         }
 
@@ -3954,13 +3937,13 @@ public final class TripleStore {
 
         private void walkName(Node step, int way, int from, int to) {
             boolean back = (way & 1) != 0;
+            int order = back ? 5 : 0;
             for (int i = 0; i < pointCounts[from]; i++) {
                 int point = points[from][i];
-                if (point <= terms.numbered) {
-                    triples.locateWith(back ? 0 : point, step.object, back ? point : 0);
-                    for (int k = triples.from; k < triples.to; k++) {
-                        int other = triples.part(triples.order, k, back ? 0 : 2);
-                        add(to, other, times[from][point], (way & 2) != 0);
+                int end = point <= terms.numbered ? triples.startOf(order, point + 1) : 0;
+                for (int k = triples.startOf(order, point); k < end; k++) {
+                    if (triples.part(order, k, 1) == step.object) {
+                        add(to, triples.part(order, k, back ? 0 : 2), times[from][point], (way & 2) != 0);
                     }
                 }
             }
@@ -3973,15 +3956,13 @@ public final class TripleStore {
                 isSaid = isSaid || name.negated == sort;
             }
             boolean back = (way & 1) != 0 != sort;
+            int order = back ? 5 : 0;
             for (int i = 0; i < pointCounts[from] && isSaid; i++) {
                 int point = points[from][i];
-                if (point <= terms.numbered) {
-                    triples.locateWith(back ? 0 : point, 0, back ? point : 0);
-                    for (int k = triples.from; k < triples.to; k++) {
-                        if (!isAmong(step, triples.part(triples.order, k, 1), sort)) {
-                            int other = triples.part(triples.order, k, back ? 0 : 2);
-                            add(to, other, times[from][point], (way & 2) != 0);
-                        }
+                int end = point <= terms.numbered ? triples.startOf(order, point + 1) : 0;
+                for (int k = triples.startOf(order, point); k < end; k++) {
+                    if (!isAmong(step, triples.part(order, k, 1), sort)) {
+                        add(to, triples.part(order, k, back ? 0 : 2), times[from][point], (way & 2) != 0);
                     }
                 }
             }
@@ -4477,7 +4458,8 @@ public final class TripleStore {
                 return;
             }
             if (!decimal) {
-                v.numeric(WHOLE, negative ? -whole : whole, 0);
+                v.kind = WHOLE;
+                v.number = negative ? -whole : whole;
                 return;
             }
             long part = limbs[0];
@@ -4490,7 +4472,9 @@ public final class TripleStore {
                 return;
             }
             long unscaled = whole * TEN[scale] + part;
-            v.numeric(DECIMAL, negative ? -unscaled : unscaled, scale);
+            v.kind = DECIMAL;
+            v.number = negative ? -unscaled : unscaled;
+            v.scale = scale;
         }
 
         /** The limbs become the product, in billionths, rounded; the sign is left out. */
@@ -4561,6 +4545,10 @@ public final class TripleStore {
         // Aggregates. The values of a set's rows stand as rows of their own until it is worked out.
 
         private void aggregate(Node n, Value v) {
+            if (n.star && n.distinct) {
+                rows.compareVariables();
+                rows.sort(setFrom, setTo);
+            }
             if (n.star) {
                 v.numeric(WHOLE, n.distinct ? countDifferent() : setTo - setFrom, 0);
                 return;
@@ -4596,12 +4584,8 @@ public final class TripleStore {
             rows.top = base;
         }
 
+        /** How many rows of the set differ, when it is sorted. */
         private int countDifferent() {
-            rows.compareNone();
-            for (int i = 0; i < rows.variables; i++) {
-                rows.compareBy(i, false);
-            }
-            rows.sort(setFrom, setTo);
             int many = 0;
             for (int r = setFrom; r < setTo; r++) {
                 many += r == setFrom || !rows.areAlike(r - 1, r) ? 1 : 0;
@@ -4737,7 +4721,12 @@ public final class TripleStore {
         private void part(Node part, int from) {
             switch (part.kind) {
                 case BLOCK:
-                    blocks.block(part, from);
+                    for (int i = 0; i < part.size && !rows.over; i++) {
+                        blocks.line(blocks.plannedAt(part, i), from);
+                    }
+                    for (Node line = part.first; line != null && !rows.over; line = line.next) {
+                        blocks.line(line.kind == PATH_LINE ? line : null, from);
+                    }
                     break;
                 case OPTIONAL:
                     optional(part, from);
