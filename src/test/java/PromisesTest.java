@@ -302,6 +302,14 @@ public final class PromisesTest {
         made(6 + 2 + 3 + 3, "SELECT ?a WHERE { ?a :p ?b } ORDER BY ?b");
         made(0, "UNRULE 5");
         made(0, "SELECT");
+        about("11 made, TERMS MADE");
+        answers(41, "INSERT DATA { :a :p " + repeat("#", ",", 41) + " }");
+        answers(26, "INSERT DATA { :a :q " + repeat("#000", ",", 26) + " }");
+        String sums = "SELECT ?d WHERE { :a :p ?b ; :q ?c BIND (?b + ?c AS ?d) }";
+        answers(41 * 26, sums);
+        due("a thousand terms made", 10 + 26 + 4 * 26 * 41, store.made());
+        answers(1, "INSERT DATA { :a :p 41 }");
+        fails(5, 0, sums);
         about("11 made, fault 5");
         answers(40, "INSERT DATA { :a :p " + repeat("#", ",", 40) + " }");
         fails(5, 0, "ASK { ?a :p ?b , ?c , ?d }");
@@ -339,6 +347,10 @@ public final class PromisesTest {
         due("but with fault 5", "0 6 -1", store.plan(0) + " " + store.plan(6) + " " + store.plan(7));
         answers(0, "DELETE DATA { :no :no :no }");
         due("no group, no plan", BAD, store.plan(0));
+        answers(60, "INSERT DATA { :c :k " + repeat("#", ",", 60) + " }");
+        fails(5, 0, "ASK { " + repeat("?a# :k ?b#", " . ", 7) + " }");
+        due("sizes end at 10^12: the text's order", "0 1 2 3 4 5 6", store.plan(0) + " " + store.plan(1) + " " + store.plan(2)
+            + " " + store.plan(3) + " " + store.plan(4) + " " + store.plan(5) + " " + store.plan(6));
     }
 
     private static void looking() {
@@ -393,6 +405,12 @@ public final class PromisesTest {
         due("the rest stays", 3 + 2 + 3, store.triples());
         answers(3, "CLEAR");
         due("nothing", "0 0 7 1", store.triples() + " " + store.said() + " " + store.terms() + " " + store.rules());
+        about("2 WHAT HOLDS: patterns that bring nothing new");
+        answers(0, "RULE { ?a :p ?b . ?b :p ?a . :x :p :x } => { ?a :q ?b }");
+        answers(3, "INSERT DATA { :a :p :b . :b :p :a . :a :p :c }");
+        due("nothing yet", 3, store.triples());
+        answers(1, "INSERT DATA { :x :p :x }");
+        due("all", 4 + 3, store.triples());
         about("2 WHAT HOLDS: round rules");
         answers(0, "RULE { ?a :p ?b } => { ?b :q ?a }");
         answers(1, "RULE { ?a :q ?b } => { ?b :p ?a }");
@@ -452,6 +470,13 @@ public final class PromisesTest {
     }
 
     // Parts 5 and 8.
+
+    /** Names, and how many they take: at least, at most. */
+    private static final String[] FUNCTIONS = {"IF", "3", "3", "COALESCE", "1", "8", "CONCAT", "0", "8", "STRLEN", "1", "1",
+        "UCASE", "1", "1", "LCASE", "1", "1", "STR", "1", "1", "LANG", "1", "1", "DATATYPE", "1", "1", "TONAME", "1", "1",
+        "ISNAME", "1", "1", "ISBLANK", "1", "1", "ISLITERAL", "1", "1", "ISNUMERIC", "1", "1", "ABS", "1", "1", "CEIL", "1", "1",
+        "FLOOR", "1", "1", "ROUND", "1", "1", "STRSTARTS", "2", "2", "STRENDS", "2", "2", "CONTAINS", "2", "2",
+        "STRBEFORE", "2", "2", "STRAFTER", "2", "2", "SAMETERM", "2", "2", "SUBSTR", "3", "3"};
 
     private static void expressions() {
         about("8 EXPRESSIONS");
@@ -539,7 +564,41 @@ public final class PromisesTest {
         worth("\"cb\"@en", "STRAFTER(\"abcb\"@en, \"b\")");
         worth("\"\"", "STRAFTER(\"abc\"@en, \"z\")");
         worth("true", "ISNAME(:a) && ISBLANK(_:a) && ISLITERAL(true) && ISNUMERIC(1.5) && !ISNUMERIC(\"1\")");
-        failsAt(2, "SELECT (IF(1, 2@@) AS ?a) WHERE { }");
+        worth("3", "IF(0, 2, 3)");
+        worth("-", "IF(\"a\"@en, 2, 3)");
+        worth("false", ":a != :a");
+        worth("true", ":a != :b");
+        worth("-", "\"a\"^^<t> != 5");
+        worth("-", "SAMETERM(?x, 1)");
+        worth("-", "SAMETERM(1, ?x)");
+        worth("false", "SAMETERM(_:a, :a)");
+        worth("-", "CONCAT(?x)");
+        worth("-", "ISNAME(?x)");
+        worth("0.5", "1 / 2");
+        worth("-0.000000001", "-1 / 1000000000");
+        worth("0.0", "1 / 10000000000");
+        worth("-", "0.000000001 * 999999999999999999 * 999999999999999999");
+        gives("\"x\" \"x\" / \"y\"@en \"y\"@en / true -",
+            "SELECT ?a ?b WHERE { VALUES ?a { \"x\" true \"y\"@en } BIND (COALESCE(UCASE(?z), CONCAT(?a)) AS ?b) }");
+        for (int f = 0; f < FUNCTIONS.length; f += 3) {
+            String name = "SELECT (" + FUNCTIONS[f];
+            int least = Integer.parseInt(FUNCTIONS[f + 1]);
+            int most = Integer.parseInt(FUNCTIONS[f + 2]);
+            if (least > 0) {
+                failsAt(2, name + "(" + repeat("1", ",", least - 1) + "@@) AS ?a) WHERE { }");
+            }
+            failsAt(2, name + "(" + repeat("1", ",", most) + "@@,1) AS ?a) WHERE { }");
+            answers(1, name + "(" + repeat("1", ",", least) + ") AS ?a) WHERE { }");
+            answers(1, name + "(" + repeat("1", ",", most) + ") AS ?a) WHERE { }");
+        }
+        failsAt(2, "SELECT (1 NOT @@(2) AS ?a) WHERE { }");
+        failsAt(2, "SELECT (NOT @@BOUND(?x) AS ?a) WHERE { }");
+        failsAt(2, "SELECT (BOUND(@@1) AS ?a) WHERE { }");
+        failsAt(2, "SELECT (GROUPCONCAT(1 ; @@2) AS ?a) WHERE { }");
+        failsAt(2, "SELECT (SUM(1 @@; \"\") AS ?a) WHERE { }");
+        failsAt(2, "SELECT (SUM(@@*) AS ?a) WHERE { }");
+        failsAt(2, "SELECT (1 @@, 2 AS ?a) WHERE { }");
+        failsAt(2, "SELECT ((1 @@, 2) AS ?a) WHERE { }");
         failsAt(2, "SELECT (ABS(1@@, 2) AS ?a) WHERE { }");
         failsAt(2, "SELECT (1 = 1 @@= 1 AS ?a) WHERE { }");
         failsAt(2, "SELECT (1 IN () @@+ 1 AS ?a) WHERE { }");
@@ -563,6 +622,10 @@ public final class PromisesTest {
         gives("- 1.5 \"ab\" 3", "SELECT (SUM(?n) AS ?s) (MIN(?n) AS ?i) (MAX(?n) AS ?x) (COUNT(?n) AS ?c) WHERE { ?a :v ?n }");
         gives("4.5 2.25 \"1.5,3\"", "SELECT (SUM(?n) AS ?s) (AVG(?n) AS ?m) (GROUPCONCAT(?n ; \",\") AS ?g) WHERE { ?a :v ?n FILTER (ISNUMERIC(?n)) }");
         gives("2 3", "SELECT (COUNT(DISTINCT ?a) AS ?n) (COUNT(DISTINCT *) AS ?m) WHERE { ?a :p ?b }");
+        gives("3.0", "SELECT (AVG(?b) AS ?n) WHERE { VALUES ?b { 3 } }");
+        gives("2 3 \"1,2\" \"1,1,2\"", "SELECT (COUNT(DISTINCT ?b) AS ?n) (SUM(DISTINCT ?b) AS ?s) (GROUPCONCAT(DISTINCT ?b ; \",\") AS ?g)"
+            + " (GROUPCONCAT(?b ; \",\") AS ?h) WHERE { VALUES ?b { 1 2 \"1\"^^<whole> } }");
+        gives("\"a b 9 10\"", "SELECT (GROUPCONCAT(?b) AS ?g) WHERE { VALUES ?b { 10 9 :b :a } }");
         gives("\"x\" 2 / \"y\" 1", "SELECT ?s (COUNT(*) AS ?n) WHERE { ?a :p ?b } GROUP BY (STR(?a) AS ?s)");
         gives("", "SELECT (COUNT(*) AS ?n) WHERE { ?a :zz ?b } GROUP BY ?a");
         answers(1, "ASK { BIND (1 AS ?a) FILTER EXISTS { BIND (2 AS ?a) FILTER (?a = 1) } }");
