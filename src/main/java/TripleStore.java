@@ -4073,7 +4073,7 @@ public final class TripleStore {
         }
 
         /** What an expression is worth for a row: what its last node is. */
-        Value worth(Node item, int row) {
+        private Value worth(Node item, int row) {
             Value value = nothing;
             for (Node n = item.start; n != null; n = n.follow) {
                 if (n.value != null) {
@@ -4084,7 +4084,7 @@ public final class TripleStore {
             return value;
         }
 
-        boolean holds(Node item, int row) {
+        private boolean holds(Node item, int row) {
             return worth(item, row).asTruth() > 0;
         }
 
@@ -4702,7 +4702,7 @@ public final class TripleStore {
          * Does a group from the bag that begins at a row; what it gives stands in its place. Groups
          * stand at most MAX_NESTED deep in one another, and so do these calls.
          */
-        void group(Node g, int from, boolean filtered) {
+        private void group(Node g, int from, boolean filtered) {
             if (g.inner != null) {
                 int middle = rows.top;
                 select(g.inner, middle);
@@ -4864,7 +4864,7 @@ public final class TripleStore {
         // SELECT.
 
         /** Puts what a SELECT gives at base, the end of all rows. */
-        void select(Node s, int base) {
+        private void select(Node s, int base) {
             rows.spend(6);
             bag(s.inner, true);
             if (s.grouped) {

@@ -188,6 +188,11 @@ public final class PromisesTest {
         gives("\"a\\\"\\\\\\n\\r\\t\"", "SELECT ?a WHERE { VALUES ?a { \"a\\\"\\\\\\n\\r\\t\" } }");
         gives("\"x\"@en", "SELECT ?a WHERE { VALUES ?a { \"x\"@EN } }");
         failsAt(2, "ASK { VALUES ?a { \"\"@abcdefgh@@I } }");
+        gives("100000000000000000 / 0.9", "SELECT ?a WHERE { VALUES ?a { 100000000000000000.9 } } ORDER BY DESC(?a)");
+        gives("99999999999999999.9", "SELECT ?a WHERE { VALUES ?a { 99999999999999999.9 } }");
+        gives("\"5\"^^<xhole> / \"5\"^^<xruth>", "SELECT ?a WHERE { VALUES ?a { \"5\"^^<xhole> \"5\"^^<xruth> } }");
+        failsAt(2, "ASK { VALUES ?a { \"x\"@@^/<t> } }");
+        fails(2, 0, repeat(";", "", 4000));
         gives("\"x\"^^<t>", "SELECT ?a WHERE { VALUES ?a { \"x\"^^<t> } }");
         gives("0.5 / 7 / \"x\" / true", "SELECT ?a WHERE { VALUES ?a { \"+07\"^^<whole> \".50\"^^<decimal> \"true\"^^<truth> \"x\"^^<text> } }");
         fails(2, 21, "ASK { VALUES ?a { \"x\"^^<whole> } }");
@@ -516,6 +521,10 @@ public final class PromisesTest {
         worth("-", "?x IN ()");
         worth("false", "1 IN ()");
         worth("true", "1 NOT IN (2)");
+        worth("false", "1 NOT IN (2, 1)");
+        worth("-", "1 NOT IN (2, ?x)");
+        worth("0", "(1) -1");
+        worth("-1", "0 + -1");
         worth("true", "?x || 1");
         worth("-", "?x || 0");
         worth("false", "?x && 0");
@@ -559,6 +568,10 @@ public final class PromisesTest {
         worth("true", "STRSTARTS(\"abc\"@en, \"ab\"@en)");
         worth("-", "STRSTARTS(\"abc\", \"ab\"@en)");
         worth("true", "STRENDS(\"abc\", \"bc\")");
+        worth("false", "STRSTARTS(\"abc\", \"bc\") || STRENDS(\"abc\", \"ab\") || CONTAINS(\"abc\", \"ac\")");
+        worth("false", "STRENDS(\"c\", \"abc\")");
+        worth("\"\"@en", "STRBEFORE(\"abc\"@en, \"a\")");
+        worth("\"abc\"", "STRAFTER(\"abc\", \"\")");
         worth("true", "CONTAINS(\"abc\", \"\")");
         worth("\"a\"@en", "STRBEFORE(\"abcb\"@en, \"b\")");
         worth("\"cb\"@en", "STRAFTER(\"abcb\"@en, \"b\")");
@@ -616,6 +629,7 @@ public final class PromisesTest {
         gives("<z>", "SELECT ?a WHERE { ?a :v ?n FILTER NOT EXISTS { ?a :p ?b } }");
         gives("<x>", "SELECT ?a WHERE { FILTER (?n > 2) ?a :v ?n }");
         gives("<x> <y> 3 / <x> <z> 3 / <y> <z> 1.5", "SELECT * WHERE { ?a :p ?b { SELECT ?a ?n WHERE { ?a :v ?n } } }");
+        gives("<x> <y> / <x> <z> / <y> <z>", "SELECT * WHERE { ?a :p ?b { SELECT ?a WHERE { ?a :v ?b } ORDER BY ?b } }");
         gives("<x> 2 / <y> 1", "SELECT ?a (COUNT(*) AS ?n) WHERE { ?a :p ?b } GROUP BY ?a");
         gives("<x> 2", "SELECT ?a (COUNT(*) AS ?n) WHERE { ?a :p ?b } GROUP BY ?a HAVING (COUNT(*) > 1)");
         gives("0 0 0 - - \"\"", "SELECT (COUNT(*) AS ?n) (SUM(?b) AS ?s) (AVG(?b) AS ?a) (MIN(?b) AS ?i) (MAX(?b) AS ?x) (GROUPCONCAT(?b) AS ?g) WHERE { ?z :zz ?b }");
