@@ -635,7 +635,7 @@ public final class TripleStore {
         final int kind;
         int at;                 // where it stands in the text
         int variable;           // the variable that it is, or that it gets a value for
-        int subject;            // a term's id, or -1 - a variable: see slot()
+        int subject;            // of a line or fact: a term's id, or -1 - a variable
         int verb;
         int object;
         int count;              // a number that it has: LIMIT, UNRULE, a pattern's, a group's price
