@@ -1,10 +1,5 @@
 /** For each promise of the document: ordinary inputs, the edges that it names, and wrong inputs. */
-public final class PromisesTest {
-    private static final int BAD = TripleStore.BAD;
-    private static int wrong = 0;
-    private static String promise = "";
-    private static TripleStore store = new TripleStore();
-
+public final class PromisesTest extends Check {
     public static void main(String[] args) {
         newObject();
         typing();
@@ -21,129 +16,40 @@ public final class PromisesTest {
         expressions();
         groups();
         paths();
-        System.out.println(wrong == 0 ? "all promises hold" : wrong + " answers are not as due");
-        if (wrong != 0) {
-            System.exit(1);
-        }
-    }
-
-    // Helpers.
-
-    private static void about(String name) {
-        promise = name;
-        store = new TripleStore();
-    }
-
-    private static void due(String what, Object want, Object got) {
-        if (!String.valueOf(want).equals(String.valueOf(got))) {
-            wrong++;
-            System.out.println(promise + ": " + what + " answered " + got + ", due is " + want);
-        }
-    }
-
-    private static void enter(String text) {
-        for (int i = 0; i < text.length(); i += 8) {
-            int n = Math.min(8, text.length() - i);
-            long bytes = 0;
-            for (int k = 0; k < n; k++) {
-                bytes = bytes << 8 | text.charAt(i + k) & 255;
-            }
-            store.type(bytes, n);
-        }
-    }
-
-    private static int run(String text) {
-        enter(text);
-        return store.run();
-    }
-
-    private static void answers(int want, String text) {
-        due(text, want, run(text));
-    }
-
-    private static void fails(int fault, int place, String text) {
-        due(text, "-" + (100 + fault) + " at " + place, run(text) + " at " + store.place());
-        due(text + " leaves no result", "0 0 0", store.rows() + " " + store.columns() + " " + (fault == 5 ? 0 : store.made()));
-    }
-
-    /** A fault where @@ stands in the text. */
-    private static void failsAt(int fault, String marked) {
-        int place = marked.indexOf("@@");
-        fails(fault, place, marked.substring(0, place) + marked.substring(place + 2));
-    }
-
-    private static String written(int n) {
-        StringBuilder out = new StringBuilder();
-        for (int i = 0; i < n; i++) {
-            out.append((char) store.written(i));
-        }
-        due("written behind the end", BAD, store.written(n));
-        return out.toString();
-    }
-
-    private static String table() {
-        StringBuilder out = new StringBuilder();
-        for (int r = 0; r < store.rows(); r++) {
-            out.append(r > 0 ? " / " : "");
-            for (int c = 0; c < store.columns(); c++) {
-                int n = store.cell(r, c);
-                out.append(c > 0 ? " " : "").append(n == 0 ? "-" : written(n));
-            }
-        }
-        return out.toString();
-    }
-
-    private static void gives(String want, String text) {
-        int answer = run(text);
-        due(text, want, answer < 0 ? String.valueOf(answer) : table());
-        due(text + ": rows", Math.max(0, answer), store.rows());
-    }
-
-    /** What an expression is worth: written, or - for ERROR. */
-    private static void worth(String want, String expression) {
-        gives(want, "SELECT (" + expression + " AS ?z) WHERE { }");
-    }
-
-    private static String repeat(String piece, String between, int times) {
-        StringBuilder out = new StringBuilder();
-        for (int i = 0; i < times; i++) {
-            out.append(i > 0 ? between : "").append(piece.replace("#", String.valueOf(i)));
-        }
-        return out.toString();
+        finish();
     }
 
     // Promises 1 to 4.
 
     private static void newObject() {
         about("1 A new object");
-        due("state", "0 0 0 0", store.triples() + " " + store.said() + " " + store.terms() + " " + store.rules());
-        due("text", 0, store.wipe());
-        due("result", "0 0 0 0", store.rows() + " " + store.columns() + " " + store.made() + " " + store.place());
-        due("nothing written", BAD, store.written(0));
-        due("cell, column, plan, term, find", "-1 -1 -1 -1 -1", store.cell(0, 0) + " " + store.column(0) + " "
-            + store.plan(0) + " " + store.term(1) + " " + store.find(0, 0, 0));
+        due("state", "0 0 0 0", store().triples() + " " + store().said() + " " + store().terms() + " " + store().rules());
+        due("text", 0, store().wipe());
+        due("result", "0 0 0 0", store().rows() + " " + store().columns() + " " + store().made() + " " + store().place());
+        due("nothing written", BAD, store().written(0));
+        due("cell, column, plan, term, find", "-1 -1 -1 -1 -1", store().cell(0, 0) + " " + store().column(0) + " "
+            + store().plan(0) + " " + store().term(1) + " " + store().find(0, 0, 0));
         due("constants", "-1 -2", TripleStore.BAD + " " + TripleStore.FULL);
     }
 
     private static void typing() {
         about("2 type, 3 wipe");
-        due("none", BAD, store.type(65, 0));
-        due("nine", BAD, store.type(65, 9));
-        due("below none", BAD, store.type(65, Integer.MIN_VALUE));
-        due("one", 1, store.type(-1L, 1));
-        due("wipe", 1, store.wipe());
-        due("wipe again", 0, store.wipe());
-        due("the highest byte first", 5, store.type(0x7777434C454152L, 5));
-        due("CLEAR", 0, store.run());
+        due("none", BAD, store().type(65, 0));
+        due("nine", BAD, store().type(65, 9));
+        due("below none", BAD, store().type(65, Integer.MIN_VALUE));
+        due("one", 1, store().type(-1L, 1));
+        due("wipe", 1, store().wipe());
+        due("wipe again", 0, store().wipe());
+        due("the highest byte first", 5, store().type(0x7777434C454152L, 5));
+        due("CLEAR", 0, store().run());
         for (int i = 0; i < 499; i++) {
-            store.type(0x2020202020202020L, 8);
+            store().type(0x2020202020202020L, 8);
         }
-        due("seven more", 3999, store.type(0x2020202020202020L, 7));
-        due("two are too many", TripleStore.FULL, store.type(0x2020L, 2));
-        due("one fits", 4000, store.type(0x20L, 1));
-        due("then none", TripleStore.FULL, store.type(0x20L, 1));
-        due("BAD comes first", BAD, store.type(0x20L, 9));
-        due("all of it", 4000, store.wipe());
+        due("seven more", 3999, store().type(0x2020202020202020L, 7));
+        due("two are too many", TripleStore.FULL, store().type(0x2020L, 2));
+        due("one fits", 4000, store().type(0x20L, 1));
+        due("then none", TripleStore.FULL, store().type(0x20L, 1));
+        due("all of it", 4000, store().wipe());
     }
 
     private static void running() {
@@ -164,8 +70,8 @@ public final class PromisesTest {
         fails(2, 7, "UNRULE -1");
         answers(1, "CLEAR");
         answers(0, "CLEAR");
-        due("rules stay", 1, store.rules());
-        due("the text is empty", 0, store.wipe());
+        due("rules stay", 1, store().rules());
+        due("the text is empty", 0, store().wipe());
         fails(2, 0, "");
         fails(2, 3, "   ");
         fails(1, 0, "&");
@@ -179,6 +85,7 @@ public final class PromisesTest {
         gives("9 / 123456789012345678", "SELECT ?a WHERE { VALUES ?a { 1234567890123456789 } }");
         gives("1 / 0.123456789", "SELECT ?a WHERE { VALUES ?a { 0.12345678900001 } } ORDER BY DESC(?a)");
         gives("5 / 123456789012345678.0", "SELECT ?a WHERE { VALUES ?a { 123456789012345678.05 } }");
+        fresh();
         failsAt(2, "ASK { VALUES ?a { 1 @@-5 } }");
         failsAt(2, "INSERT DATA { :a :p @@-5 }");
         answers(1, "INSERT DATA { :a a -5 }");
@@ -192,7 +99,9 @@ public final class PromisesTest {
         gives("99999999999999999.9", "SELECT ?a WHERE { VALUES ?a { 99999999999999999.9 } }");
         gives("\"5\"^^<xhole> / \"5\"^^<xruth>", "SELECT ?a WHERE { VALUES ?a { \"5\"^^<xhole> \"5\"^^<xruth> } }");
         failsAt(2, "ASK { VALUES ?a { \"x\"@@^/<t> } }");
+        fresh();
         fails(2, 0, repeat(";", "", 4000));
+        fresh();
         gives("\"x\"^^<t>", "SELECT ?a WHERE { VALUES ?a { \"x\"^^<t> } }");
         gives("0.5 / 7 / \"x\" / true", "SELECT ?a WHERE { VALUES ?a { \"+07\"^^<whole> \".50\"^^<decimal> \"true\"^^<truth> \"x\"^^<text> } }");
         fails(2, 21, "ASK { VALUES ?a { \"x\"^^<whole> } }");
@@ -209,7 +118,7 @@ public final class PromisesTest {
     private static void places() {
         about("5 place");
         answers(0, "CLEAR # a remark");
-        due("no fault: the length", 16, store.place());
+        due("no fault: the length", 16, store().place());
         fails(1, 12, "ASK { ?a :p ~ }");
         failsAt(2, "ASK { ?ab @@\"x\" ?b }");
         fails(2, 13, "ASK { ?a :p  ");
@@ -223,6 +132,7 @@ public final class PromisesTest {
         failsAt(1, "ASK { BIND (1 AS ?a) BIND (2 AS ?a@@~) }");
         failsAt(4, "ASK { BIND (1 AS ?a) BIND (2 AS @@?a x }");
         fails(4, 17, "ASK { VALUES (?a ?a");
+        fresh();
         fails(4, 10, "SELECT ?a ?a WHERE { } x");
         fails(4, 7, "SELECT * WHERE { } GROUP BY ?a");
         fails(4, 24, "SELECT (COUNT(*) AS ?n) ?a WHERE { }");
@@ -243,25 +153,25 @@ public final class PromisesTest {
         about("6 rows, 7 columns, 8 cell, 9 column");
         answers(3, "INSERT DATA { :a :p 1 , 2 . :b :p \"x\" }");
         answers(3, "SELECT ?a ?long_name1 WHERE { ?a :p ?b }");
-        due("rows", 3, store.rows());
-        due("columns", 2, store.columns());
-        due("its name", "a", written(store.column(0)));
-        due("its name", "long_name1", written(store.column(1)));
-        due("no column", "-1 -1", store.column(2) + " " + store.column(-1));
-        due("a cell", "<a>", written(store.cell(0, 0)));
-        due("nothing in it", 0, store.cell(0, 1));
-        due("then nothing is written", BAD, store.written(0));
-        due("no cell", "-1 -1 -1 -1", store.cell(3, 0) + " " + store.cell(0, 2) + " " + store.cell(-1, 0) + " " + store.cell(0, -1));
+        due("rows", 3, store().rows());
+        due("columns", 2, store().columns());
+        due("its name", "a", written(store().column(0)));
+        due("its name", "long_name1", written(store().column(1)));
+        due("no column", "-1 -1", store().column(2) + " " + store().column(-1));
+        due("a cell", "<a>", written(store().cell(0, 0)));
+        due("nothing in it", 0, store().cell(0, 1));
+        due("then nothing is written", BAD, store().written(0));
+        due("no cell", "-1 -1 -1 -1", store().cell(3, 0) + " " + store().cell(0, 2) + " " + store().cell(-1, 0) + " " + store().cell(0, -1));
         answers(1, "ASK { ?a :p ?b }");
-        due("ASK has no rows", "0 0", store.rows() + " " + store.columns());
+        due("ASK has no rows", "0 0", store().rows() + " " + store().columns());
         answers(0, "SELECT ?a WHERE { ?a :zz ?b }");
-        due("columns without rows", "0 1", store.rows() + " " + store.columns());
+        due("columns without rows", "0 1", store().rows() + " " + store().columns());
         gives("<a> <k> 1 / <a> <k> 2 / <b> <k> \"x\"", "CONSTRUCT { ?a :k ?b . ?b :k ?a } WHERE { ?a :p ?b }");
-        due("CONSTRUCT's columns", "s p o", written(store.column(0)) + " " + written(store.column(1)) + " " + written(store.column(2)));
+        due("CONSTRUCT's columns", "s p o", written(store().column(0)) + " " + written(store().column(1)) + " " + written(store().column(2)));
         answers(0, "CONSTRUCT { ?a :k ?b } WHERE { ?a :zz ?b }");
-        due("three without rows", "0 3", store.rows() + " " + store.columns());
+        due("three without rows", "0 3", store().rows() + " " + store().columns());
         answers(0, "DELETE DATA { :no :no :no }");
-        due("no result", "0 0", store.rows() + " " + store.columns());
+        due("no result", "0 0", store().rows() + " " + store().columns());
         gives("<b> \"x\" / <a> 2 / <a> 1", "SELECT ?a ?b WHERE { ?a :p ?b } ORDER BY DESC(?b)");
         gives("1 <a> / 2 <a> / \"x\" <b>", "SELECT ?b ?a WHERE { ?a :p ?b }");
         gives("<a> / <b>", "SELECT DISTINCT ?a WHERE { ?a :p ?b }");
@@ -271,14 +181,14 @@ public final class PromisesTest {
 
     private static void writing() {
         about("10 written");
-        due("nothing yet", BAD, store.written(0));
+        due("nothing yet", BAD, store().written(0));
         answers(1, "INSERT DATA { :a :p 1.50 }");
-        due("a term", "1.5", written(store.term(3)));
-        due("BAD leaves it", BAD, store.term(4));
+        due("a term", "1.5", written(store().term(3)));
+        due("BAD leaves it", BAD, store().term(4));
         due("still there", "1.5", written(3));
         fails(2, 0, "nonsense");
         due("run leaves it", "1.5", written(3));
-        due("wrong places", "-1 -1", store.written(-1) + " " + store.written(Integer.MAX_VALUE));
+        due("wrong places", "-1 -1", store().written(-1) + " " + store().written(Integer.MAX_VALUE));
         gives("_:b1 / <n> / -3 / 2.0 / \"t\" / \"t\"@de / \"t\"^^<d> / false / true",
             "SELECT ?a WHERE { VALUES (?a) { (true) (false) (\"t\"^^<d>) (\"t\"@de) (\"t\") (2.0) (-3) (:n) (_:b1) } }");
     }
@@ -288,7 +198,7 @@ public final class PromisesTest {
     private static void making() {
         about("11 made");
         answers(3, "INSERT DATA { :a :p 1 , 2 . :b :p 1 }");
-        due("none", 0, store.made());
+        due("none", 0, store().made());
         made(6 + 2 + 3, "SELECT ?a WHERE { ?a :p ?b }");
         made(1 + 1 + 3, "ASK { ?a :p ?b }");
         made(1 + 1 + 3 + 3, "CONSTRUCT { ?a :k ?b . ?a :k ?b } WHERE { ?a :p ?b }");
@@ -312,120 +222,115 @@ public final class PromisesTest {
         answers(26, "INSERT DATA { :a :q " + repeat("#000", ",", 26) + " }");
         String sums = "SELECT ?d WHERE { :a :p ?b ; :q ?c BIND (?b + ?c AS ?d) }";
         answers(41 * 26, sums);
-        due("a thousand terms made", 10 + 26 + 4 * 26 * 41, store.made());
+        due("a thousand terms made", 10 + 26 + 4 * 26 * 41, store().made());
         answers(1, "INSERT DATA { :a :p 41 }");
         fails(5, 0, sums);
         about("11 made, fault 5");
         answers(40, "INSERT DATA { :a :p " + repeat("#", ",", 40) + " }");
         fails(5, 0, "ASK { ?a :p ?b , ?c , ?d }");
-        due("made", 8000, store.made());
+        due("made", 8000, store().made());
         fails(5, 0, "ASK { ?a :p ?b , ?c , ?d }");
         answers(1, "ASK { ?a :p ?b , ?c }");
-        due("made", 1643, store.made());
+        due("made", 1643, store().made());
         answers(1, "ASK { ?a :p ?b , ?c }");
         fails(5, 0, "ASK { ?a :p ?b , ?c }");
-        due("made", 8000, store.made());
+        due("made", 8000, store().made());
         fails(5, 0, "ASK { }");
         due("all other statements go on", 1, run("INSERT DATA { :b :p 1 }"));
-    }
-
-    private static void made(int want, String text) {
-        run(text);
-        due(text + " made", want, store.made());
     }
 
     private static void plans() {
         about("12 plan");
         answers(6, "INSERT DATA { :a :p 1 , 2 , 3 , 4 . :a :q 1 . :b :q 2 }");
         answers(3, "SELECT * WHERE { ?a :p ?b . ?a :q ?c FILTER (?b < 4) }");
-        due("plan", "0 1 -1", store.plan(0) + " " + store.plan(1) + " " + store.plan(2));
+        due("plan", "0 1 -1", store().plan(0) + " " + store().plan(1) + " " + store().plan(2));
         answers(4, "SELECT * WHERE { ?a :p ?b . ?a :q 1 }");
-        due("plan", "1 0 -1", store.plan(0) + " " + store.plan(1) + " " + store.plan(2));
+        due("plan", "1 0 -1", store().plan(0) + " " + store().plan(1) + " " + store().plan(2));
         answers(1, "ASK { ?a :q ?b ?a :p+ ?b ; :p ?c , ?d }");
-        due("blocks as they stand", "0 1 2 -1", store.plan(0) + " " + store.plan(1) + " " + store.plan(2) + " " + store.plan(3));
-        due("none", BAD, store.plan(-1));
+        due("blocks as they stand", "0 1 2 -1", store().plan(0) + " " + store().plan(1) + " " + store().plan(2) + " " + store().plan(3));
+        due("none", BAD, store().plan(-1));
         answers(0, "INSERT { ?a :p ?b . ?b :q ?a } WHERE { ?a :p 1 FILTER EXISTS { ?a :q ?b } }");
-        due("facts do not count", "0 1 -1", store.plan(0) + " " + store.plan(1) + " " + store.plan(2));
+        due("facts do not count", "0 1 -1", store().plan(0) + " " + store().plan(1) + " " + store().plan(2));
         fails(2, 0, "x");
-        due("not with a fault", BAD, store.plan(0));
+        due("not with a fault", BAD, store().plan(0));
         fails(5, 0, "ASK { ?a :p ?b . ?c :p ?d . ?e :p ?f . ?g :p ?h . ?i :p ?j . ?k :p ?l . ?m :p ?n }");
-        due("but with fault 5", "0 6 -1", store.plan(0) + " " + store.plan(6) + " " + store.plan(7));
+        due("but with fault 5", "0 6 -1", store().plan(0) + " " + store().plan(6) + " " + store().plan(7));
         answers(0, "DELETE DATA { :no :no :no }");
-        due("no group, no plan", BAD, store.plan(0));
+        due("no group, no plan", BAD, store().plan(0));
         answers(60, "INSERT DATA { :c :k " + repeat("#", ",", 60) + " }");
         fails(5, 0, "ASK { " + repeat("?a# :k ?b#", " . ", 7) + " }");
-        due("sizes end at 10^12: the text's order", "0 1 2 3 4 5 6", store.plan(0) + " " + store.plan(1) + " " + store.plan(2)
-            + " " + store.plan(3) + " " + store.plan(4) + " " + store.plan(5) + " " + store.plan(6));
+        due("sizes end at 10^12: the text's order", "0 1 2 3 4 5 6", store().plan(0) + " " + store().plan(1) + " " + store().plan(2)
+            + " " + store().plan(3) + " " + store().plan(4) + " " + store().plan(5) + " " + store().plan(6));
     }
 
     private static void looking() {
         about("13 triples, 14 said, 15 terms, 16 rules, 17 term, 18 find, 19 count");
         answers(0, "RULE { ?a :p ?b } => { ?a :q ?b }");
-        due("a rule's terms", "2 <p> <q>", store.terms() + " " + written(store.term(1)) + " " + written(store.term(2)));
+        due("a rule's terms", "2 <p> <q>", store().terms() + " " + written(store().term(1)) + " " + written(store().term(2)));
         answers(2, "INSERT DATA { _:x :p 10 . :a :p 9 }");
-        due("numbers in THE ORDER behind the others", "_:x <a> 9 10", written(store.term(3)) + " " + written(store.term(4))
-            + " " + written(store.term(5)) + " " + written(store.term(6)));
-        due("counts", "4 2 6 1", store.triples() + " " + store.said() + " " + store.terms() + " " + store.rules());
-        due("no term", "-1 -1 -1", store.term(0) + " " + store.term(7) + " " + store.term(-5));
+        due("numbers in THE ORDER behind the others", "_:x <a> 9 10", written(store().term(3)) + " " + written(store().term(4))
+            + " " + written(store().term(5)) + " " + written(store().term(6)));
+        due("counts", "4 2 6 1", store().triples() + " " + store().said() + " " + store().terms() + " " + store().rules());
+        due("no term", "-1 -1 -1", store().term(0) + " " + store().term(7) + " " + store().term(-5));
         String[] orders = {"3,1,6,1 3,2,6,0 4,1,5,1 4,2,5,0", "3,1,6,1 3,2,6,0 4,1,5,1 4,2,5,0",
             "3,1,6,1 4,1,5,1 3,2,6,0 4,2,5,0", "4,1,5,1 3,1,6,1 4,2,5,0 3,2,6,0",
             "4,1,5,1 4,2,5,0 3,1,6,1 3,2,6,0", "4,1,5,1 4,2,5,0 3,1,6,1 3,2,6,0"};
         for (int q = 0; q < 6; q++) {
             StringBuilder all = new StringBuilder();
             for (int k = 0; k < 4; k++) {
-                all.append(k > 0 ? " " : "").append(store.find(q, k, 0)).append(',').append(store.find(q, k, 1))
-                    .append(',').append(store.find(q, k, 2)).append(',').append(store.find(q, k, 3));
+                all.append(k > 0 ? " " : "").append(store().find(q, k, 0)).append(',').append(store().find(q, k, 1))
+                    .append(',').append(store().find(q, k, 2)).append(',').append(store().find(q, k, 3));
             }
             due("ordering " + q, orders[q], all);
         }
-        due("no such", "-1 -1 -1 -1 -1 -1", store.find(6, 0, 0) + " " + store.find(-1, 0, 0) + " " + store.find(0, 4, 0)
-            + " " + store.find(0, -1, 0) + " " + store.find(0, 0, 4) + " " + store.find(0, 0, -1));
-        due("count none", "4 4", store.count(0, 0, 99, 99, 99) + " " + store.count(5, 0, -1, -1, -1));
-        due("count one", "2 2 2 0 0 0", store.count(0, 1, 3, 0, 0) + " " + store.count(2, 1, 1, 0, 0) + " "
-            + store.count(4, 1, 5, 0, 0) + " " + store.count(0, 1, 1, 0, 0) + " " + store.count(0, 1, 0, 0, 0) + " " + store.count(0, 1, 7, 0, 0));
-        due("count two", "1 1 2 0", store.count(0, 2, 3, 1, 0) + " " + store.count(3, 2, 1, 6, 0) + " "
-            + store.count(1, 2, 4, 5, 0) + " " + store.count(1, 2, 4, 6, 0));
-        due("count three", "1 0", store.count(5, 3, 6, 2, 3) + " " + store.count(5, 3, 6, 2, 4));
-        due("wrong", "-1 -1 -1 -1", store.count(6, 0, 0, 0, 0) + " " + store.count(-1, 0, 0, 0, 0) + " "
-            + store.count(0, 4, 1, 1, 1) + " " + store.count(0, -1, 1, 1, 1));
-        due("far numbers", "0 0", store.count(0, 1, Integer.MAX_VALUE, 0, 0) + " " + store.count(0, 3, 3, 1, Integer.MIN_VALUE));
+        due("no such", "-1 -1 -1 -1 -1 -1", store().find(6, 0, 0) + " " + store().find(-1, 0, 0) + " " + store().find(0, 4, 0)
+            + " " + store().find(0, -1, 0) + " " + store().find(0, 0, 4) + " " + store().find(0, 0, -1));
+        due("count none", "4 4", store().count(0, 0, 99, 99, 99) + " " + store().count(5, 0, -1, -1, -1));
+        due("count one", "2 2 2 0 0 0", store().count(0, 1, 3, 0, 0) + " " + store().count(2, 1, 1, 0, 0) + " "
+            + store().count(4, 1, 5, 0, 0) + " " + store().count(0, 1, 1, 0, 0) + " " + store().count(0, 1, 0, 0, 0) + " " + store().count(0, 1, 7, 0, 0));
+        due("count two", "1 1 2 0", store().count(0, 2, 3, 1, 0) + " " + store().count(3, 2, 1, 6, 0) + " "
+            + store().count(1, 2, 4, 5, 0) + " " + store().count(1, 2, 4, 6, 0));
+        due("count three", "1 0", store().count(5, 3, 6, 2, 3) + " " + store().count(5, 3, 6, 2, 4));
+        due("wrong", "-1 -1 -1 -1", store().count(6, 0, 0, 0, 0) + " " + store().count(-1, 0, 0, 0, 0) + " "
+            + store().count(0, 4, 1, 1, 1) + " " + store().count(0, -1, 1, 1, 1));
+        due("far numbers", "0 0", store().count(0, 1, Integer.MAX_VALUE, 0, 0) + " " + store().count(0, 3, 3, 1, Integer.MIN_VALUE));
         answers(1, "DELETE DATA { :a :p 9 }");
-        due("terms keep their numbers", "2 1 6", store.triples() + " " + store.said() + " " + store.terms());
+        due("terms keep their numbers", "2 1 6", store().triples() + " " + store().said() + " " + store().terms());
         answers(1, "INSERT DATA { _:x :q 10 }");
-        due("said though it held", "2 2 1", store.triples() + " " + store.said() + " " + store.find(0, 1, 3));
+        due("said though it held", "2 2 1", store().triples() + " " + store().said() + " " + store().find(0, 1, 3));
         answers(1, "DELETE DATA { _:x :q 10 }");
-        due("it holds all the same", "2 1 0", store.triples() + " " + store.said() + " " + store.find(0, 1, 3));
+        due("it holds all the same", "2 1 0", store().triples() + " " + store().said() + " " + store().find(0, 1, 3));
     }
 
     private static void rulesFollow() {
         about("2 WHAT HOLDS");
         answers(0, "RULE { ?a :p ?b . ?b :p ?c } => { ?a :p ?c }");
         answers(4, "INSERT DATA { :a :p :b . :b :p :c . :c :p :d . :d :p \"x\" }");
-        due("closed", 10, store.triples());
+        due("closed", 10, store().triples());
         answers(1, "DELETE DATA { :b :p :c }");
-        due("what rested on it goes", 4, store.triples());
+        due("what rested on it goes", 4, store().triples());
         answers(1, "RULE { ?a :p ?b } => { ?b :q ?a . ?a :q ?a }");
-        due("no triple has a text as subject", 4 + 2 + 3, store.triples());
+        due("no triple has a text as subject", 4 + 2 + 3, store().triples());
         answers(1, "UNRULE 0");
-        due("the rest stays", 3 + 2 + 3, store.triples());
+        due("the rest stays", 3 + 2 + 3, store().triples());
         answers(3, "CLEAR");
-        due("nothing", "0 0 7 1", store.triples() + " " + store.said() + " " + store.terms() + " " + store.rules());
+        due("nothing", "0 0 7 1", store().triples() + " " + store().said() + " " + store().terms() + " " + store().rules());
         about("2 WHAT HOLDS: patterns that bring nothing new");
         answers(0, "RULE { ?a :p ?b . ?b :p ?a . :x :p :x } => { ?a :q ?b }");
         answers(3, "INSERT DATA { :a :p :b . :b :p :a . :a :p :c }");
-        due("nothing yet", 3, store.triples());
+        due("nothing yet", 3, store().triples());
         answers(1, "INSERT DATA { :x :p :x }");
-        due("all", 4 + 3, store.triples());
+        due("all", 4 + 3, store().triples());
         about("2 WHAT HOLDS: round rules");
         answers(0, "RULE { ?a :p ?b } => { ?b :q ?a }");
         answers(1, "RULE { ?a :q ?b } => { ?b :p ?a }");
         answers(1, "INSERT DATA { :a :p :b }");
-        due("both", 2, store.triples());
+        due("both", 2, store().triples());
         answers(1, "DELETE DATA { :a :p :b }");
-        due("they do not hold each other", 0, store.triples());
+        due("they do not hold each other", 0, store().triples());
         answers(2, "RULE { ?a ?p ?b } => { ?a ?b ?p }");
         answers(1, "INSERT DATA { :a :k 5 }");
-        due("a number is no predicate", 1, store.triples());
+        due("a number is no predicate", 1, store().triples());
     }
 
     private static void rooms() {
@@ -434,20 +339,20 @@ public final class PromisesTest {
             answers(100, "INSERT DATA { :a :p " + repeat(i + "#", ",", 100).replaceAll("\\b0(\\d)", "9000$1") + " }");
         }
         answers(98, "INSERT DATA { :a :p " + repeat("9#.5", ",", 98) + " }");
-        due("full", 800, store.terms());
-        fails(6, 0, "INSERT DATA { :a :p 123456 }");
-        fails(6, 0, "RULE { ?a :zz ?b } => { ?a :p ?b }");
+        due("full", 800, store().terms());
+        fails(6, 0, "INSERT DATA{:a :p 123456}");
+        fails(6, 0, "RULE{?a :zz ?b}=>{?a :p ?b}");
         answers(1, "INSERT DATA { :p :p 10 }");
-        due("still", "800 799 0", store.terms() + " " + store.said() + " " + store.rules());
+        due("still", "800 799 0", store().terms() + " " + store().said() + " " + store().rules());
         about("ROOM: triples");
         answers(44, "INSERT DATA { " + repeat(":s# :p 1", " . ", 44) + " }");
         answers(1936, "INSERT { ?a :q ?b } WHERE { ?a :p 1 . ?b :p 1 }");
         answers(20, "INSERT DATA { " + repeat(":s# :p 2", " . ", 20) + " }");
-        due("full", 2000, store.triples());
+        due("full", 2000, store().triples());
         fails(6, 0, "INSERT DATA { :s1 :p 3 }");
         fails(6, 0, "RULE { ?a :p 2 } => { ?a :p ?a }");
         fails(6, 0, "DELETE { :s1 :p 2 } INSERT { :s1 :p 3 . :s1 :p 4 } WHERE { }");
-        due("nothing changed", "2000 2000 0", store.triples() + " " + store.said() + " " + store.rules());
+        due("nothing changed", "2000 2000 0", store().triples() + " " + store().said() + " " + store().rules());
         answers(2, "DELETE { :s1 :p 2 } INSERT { :s1 :p 3 } WHERE { }");
         about("ROOM: rules and CHOICES");
         answers(99, "INSERT DATA { :a :p " + repeat("#", ",", 99) + " }");
@@ -459,7 +364,7 @@ public final class PromisesTest {
             answers(i, "RULE { ?a :zz ?b } => { ?a :p ?b }");
         }
         fails(6, 0, "RULE { ?a :zz ?b } => { ?a :p ?b }");
-        due("sixteen", 16, store.rules());
+        due("sixteen", 16, store().rules());
         about("ROOM of statements");
         answers(1, "ASK { " + repeat("{ }", " ", 39) + " }");
         fails(3, 6 + 39 * 4, "ASK { " + repeat("{ }", " ", 40) + " }");
@@ -597,6 +502,7 @@ public final class PromisesTest {
             String name = "SELECT (" + FUNCTIONS[f];
             int least = Integer.parseInt(FUNCTIONS[f + 1]);
             int most = Integer.parseInt(FUNCTIONS[f + 2]);
+            fresh();
             if (least > 0) {
                 failsAt(2, name + "(" + repeat("1", ",", least - 1) + "@@) AS ?a) WHERE { }");
             }
@@ -604,6 +510,7 @@ public final class PromisesTest {
             answers(1, name + "(" + repeat("1", ",", least) + ") AS ?a) WHERE { }");
             answers(1, name + "(" + repeat("1", ",", most) + ") AS ?a) WHERE { }");
         }
+        fresh();
         failsAt(2, "SELECT (1 NOT @@(2) AS ?a) WHERE { }");
         failsAt(2, "SELECT (NOT @@BOUND(?x) AS ?a) WHERE { }");
         failsAt(2, "SELECT (BOUND(@@1) AS ?a) WHERE { }");
@@ -617,9 +524,12 @@ public final class PromisesTest {
         failsAt(2, "SELECT (1 IN () @@+ 1 AS ?a) WHERE { }");
     }
 
+    private static final String FACTS =
+        "INSERT DATA { :x :p :y , :z ; :v 3 . :y :p :z ; :v 1.5 . :z :v \"ab\" . _:b a <t> }";
+
     private static void groups() {
-        about("5 WHAT GROUPS GIVE, 6 WHAT A SELECT GIVES");
-        answers(7, "INSERT DATA { :x :p :y , :z ; :v 3 . :y :p :z ; :v 1.5 . :z :v \"ab\" . _:b a <t> }");
+        about("5 WHAT GROUPS GIVE");
+        answers(7, FACTS);
         gives("<x> <y> / <x> <z> / <y> - / <z> -", "SELECT ?a ?b WHERE { ?a :v ?n OPTIONAL { ?a :p ?b FILTER (?n > 2) } }");
         gives("<z>", "SELECT ?a WHERE { ?a :v ?n MINUS { ?a :p :z } }");
         gives("<x> / <y> / <z>", "SELECT ?a WHERE { ?a :v ?n MINUS { ?c :p :z } }");
@@ -630,6 +540,8 @@ public final class PromisesTest {
         gives("<x>", "SELECT ?a WHERE { FILTER (?n > 2) ?a :v ?n }");
         gives("<x> <y> 3 / <x> <z> 3 / <y> <z> 1.5", "SELECT * WHERE { ?a :p ?b { SELECT ?a ?n WHERE { ?a :v ?n } } }");
         gives("<x> <y> / <x> <z> / <y> <z>", "SELECT * WHERE { ?a :p ?b { SELECT ?a WHERE { ?a :v ?b } ORDER BY ?b } }");
+        about("6 WHAT A SELECT GIVES");
+        answers(7, FACTS);
         gives("<x> 2 / <y> 1", "SELECT ?a (COUNT(*) AS ?n) WHERE { ?a :p ?b } GROUP BY ?a");
         gives("<x> 2", "SELECT ?a (COUNT(*) AS ?n) WHERE { ?a :p ?b } GROUP BY ?a HAVING (COUNT(*) > 1)");
         gives("0 0 0 - - \"\"", "SELECT (COUNT(*) AS ?n) (SUM(?b) AS ?s) (AVG(?b) AS ?a) (MIN(?b) AS ?i) (MAX(?b) AS ?x) (GROUPCONCAT(?b) AS ?g) WHERE { ?z :zz ?b }");
