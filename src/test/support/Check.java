@@ -157,6 +157,15 @@ class Check {
         return out.toString();
     }
 
+    /** The numbers from one on up to another one. */
+    static String range(int from, int to, String between) {
+        StringBuilder out = new StringBuilder();
+        for (int i = from; i <= to; i++) {
+            out.append(i > from ? between : "").append(i);
+        }
+        return out.toString();
+    }
+
     static String bytes(String piece, int times) {
         return repeat(piece, "", times);
     }
