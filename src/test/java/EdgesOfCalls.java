@@ -447,7 +447,7 @@ public final class EdgesOfCalls extends Check {
         due("two", "1 0 1 1", store().count(0, 2, 1, 2, 0) + " " + store().count(0, 2, 1, 1, 0) + " "
             + store().count(2, 2, 1, 2, 0) + " " + store().count(5, 2, 2, 1, 0));
         due("three", "1 0", store().count(0, 3, 1, 2, 3) + " " + store().count(0, 3, 3, 2, 1));
-        int[] strange = {0, 4, -1, 801, 1023, 1024, LEAST, MOST};
+        int[] strange = {0, 4, -1, 801, 1023, 1024, 1025, 1026, 1027, 2050, -1022, LEAST, MOST};
         for (int number : strange) {
             due("no term: " + number, "0 0 0", store().count(0, 1, number, 2, 3) + " " + store().count(0, 2, 1, number, 3)
                 + " " + store().count(0, 3, 1, 2, number));

@@ -257,6 +257,8 @@ public final class EdgesOfFaults extends Check {
         failsAt(4, "SELECT ?a (1 AS ?n) WHERE { ?a :p ?b } GROUP BY ?a ORDER BY ASC(?n + @@?b)");
         failsAt(4, "SELECT (COUNT(*) AS ?n) WHERE { ?a :p ?b } ORDER BY @@?a");
         failsAt(4, "SELECT (1 AS ?n) WHERE { ?a :p ?b } ORDER BY (COUNT(*)) @@?a");
+        failsAt(4, "SELECT (COUNT(?z) AS ?n) WHERE { ?z :p ?b } HAVING (1) ORDER BY @@?z");
+        failsAt(4, "SELECT (COUNT(?z) AS ?n) WHERE { ?z :p ?b } ORDER BY ?n @@?z");
         answers(0, "SELECT (1 AS ?n) WHERE { ?a :p ?b } ORDER BY ?a ?z");
     }
 
@@ -295,6 +297,10 @@ public final class EdgesOfFaults extends Check {
         failsAt(4, "SELECT (COUNT(EXISTS { SELECT (COUNT(@@SUM(1)) AS ?c) WHERE { } }) AS ?a) WHERE { }");
         failsAt(4, "SELECT (COUNT(EXISTS { } + @@SUM(1)) AS ?a) WHERE { }");
         answers(1, "SELECT (COUNT(EXISTS { }) + SUM(1) AS ?a) WHERE { }");
+        answers(1, "SELECT (EXISTS { FILTER (1) } && COUNT(*) > 0 AS ?a) WHERE { }");
+        answers(1, "SELECT (EXISTS { SELECT (COUNT(*) AS ?c) WHERE { } } && COUNT(*) > 0 AS ?a) WHERE { }");
+        failsAt(4, "SELECT * WHERE { FILTER (EXISTS { SELECT (COUNT(*) AS ?c) WHERE { } } && @@COUNT(*) > 0) }");
+        failsAt(4, "SELECT ?a WHERE { } GROUP BY (EXISTS { SELECT (COUNT(*) AS ?c) WHERE { } } && @@COUNT(*) > 0 AS ?a)");
     }
 
     private static void aggregatesMakeGrouped() {

@@ -470,6 +470,7 @@ public final class EdgesOfGroups extends Check {
         gives("0 3", "SELECT (COUNT(1 / 0) AS ?k) (COUNT(1) AS ?m) WHERE { ?a :v ?n }");
         gives("2 0", "SELECT (COUNT(DISTINCT ISNUMERIC(?n)) AS ?k) (COUNT(DISTINCT ?z) AS ?m) WHERE { ?a :v ?n }");
         gives("<x> 2 2 / <y> 1 1 / <z> 1 1", "SELECT ?a (COUNT(*) AS ?n) (COUNT(DISTINCT *) AS ?m) WHERE { ?a :p ?b } GROUP BY ?a");
+        gives("2 2", "SELECT (COUNT(DISTINCT *) AS ?m) (COUNT(DISTINCT ?a) AS ?n) WHERE { SELECT ?a WHERE { VALUES ?a { 1 2 } } ORDER BY DESC(?a) }");
         gives("2 3", "SELECT (COUNT(DISTINCT *) AS ?m) (COUNT(*) AS ?n) WHERE { VALUES ?a { UNDEF 1 1 } }");
     }
 

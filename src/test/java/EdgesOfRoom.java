@@ -27,11 +27,15 @@ public final class EdgesOfRoom extends Check {
         triplesThatGoAndCome();
         terms();
         termsOfRules();
+        theLastTerm();
         rules();
         choices();
         choicesOfEachLength();
         choicesOfAllRules();
+        whatFollowedHolds();
+        numbersAreGivenAgain();
         made();
+        madeByFacts();
         life();
         lifeOfFaults();
         madeBySix();
@@ -158,6 +162,8 @@ public final class EdgesOfRoom extends Check {
             "SELECT ?a WHERE { } ORDER BY (EXISTS " + bytes("{ ", 8) + "@@{ }");
         last("ASK { " + bytes("{ ", 5) + "{ SELECT (EXISTS { } AS ?a) WHERE { } }" + bytes("} ", 6),
             "ASK { " + bytes("{ ", 5) + "{ SELECT (EXISTS { @@{ } } AS ?a) WHERE { } }" + bytes("} ", 6));
+        last("ASK { FILTER (EXISTS { FILTER (1) } && EXISTS " + bytes("{ ", 7) + bytes("} ", 7) + ") }",
+            "ASK { FILTER (EXISTS { FILTER (1) } && EXISTS " + bytes("{ ", 7) + "@@{ }");
         last("ASK { BIND (EXISTS { { MINUS { { OPTIONAL { { { } } } } } } } AS ?x) }",
             "ASK { BIND (EXISTS { { MINUS { { OPTIONAL { { { @@{ } } } } } } } } AS ?x) }");
     }
@@ -196,6 +202,8 @@ public final class EdgesOfRoom extends Check {
         last("ASK { FILTER (((((((EXISTS { FILTER ((((((((1)))))))) } ))))))) }",
             "ASK { FILTER (((((((EXISTS { FILTER ((((((((@@(1");
         last("ASK { FILTER (((((((EXISTS { } + (1)))))))) }", "ASK { FILTER ((((((((EXISTS { } + @@(1");
+        last("ASK { FILTER (((((((EXISTS { FILTER (1) } + (1)))))))) }", "ASK { FILTER ((((((((EXISTS { FILTER (1) } + @@(1");
+        last("ASK { FILTER (EXISTS { FILTER (((((((1))))))) } + (((((((1)))))))) }", "ASK { FILTER (EXISTS { FILTER (1) } + (((((((@@(1");
         last("ASK { FILTER (((((((EXISTS { SELECT (" + bytes("(", 7) + "1" + bytes(")", 7) + " AS ?a) WHERE { } } ))))))) }",
             "ASK { FILTER (((((((EXISTS { SELECT (" + bytes("(", 7) + "@@(1");
     }
@@ -443,6 +451,36 @@ public final class EdgesOfRoom extends Check {
         due("its terms keep theirs", 800, store().terms());
     }
 
+    private static void theLastTerm() {
+        about("ROOM: the 800th term is as good as the first");
+        answers(400, numbers(0, 20));
+        answers(380, numbers(400, 19));
+        answers(15, "INSERT DATA { :a :p " + range(901, 915, ",") + " }");
+        answers(7, "INSERT DATA { :x :y :z . :z :z :z . :z :y 5 . :y :z :z . :a :x 5 . :p :x 5 . :x :x 5 }");
+        due("full", "800 <z>", store().terms() + " " + written(store().term(800)));
+        due("behind it", BAD, store().term(801));
+        gives("<y> 5 / <z> <z>", "SELECT * WHERE { :z ?b ?c }");
+        gives("<x> <y> / <y> <z> / <z> <z>", "SELECT * WHERE { ?a ?b :z }");
+        gives("<y> <z> / <z> <z>", "SELECT * WHERE { ?a :z ?c }");
+        gives("<z>", "SELECT * WHERE { ?a ?a ?a }");
+        gives("<z>", "SELECT * WHERE { :z :z ?a }");
+        gives("<z> / 5", "SELECT * WHERE { :x :y/(:y|:z) ?a }");
+        gives("<x> / <z>", "SELECT * WHERE { ?a :y* :z }");
+        gives("<new>", "SELECT * WHERE { :new :z* ?a }");
+        gives("<y> / <z>", "SELECT * WHERE { :x :y/^:z ?a }");
+        gives("<y> / <z>", "SELECT * WHERE { :y :z* ?a }");
+        answers(1, "ASK { ?a :z ?b . ?d :x ?c }");
+        answers(0, "ASK { ?a :z ?b . ?a :x ?c }");
+        // z: 2, 1 when ?a is known; x: 3, and 1. (z, x): 2 + 2; (x, z): 3 + 3.
+        due("plan", "0 1 -1", plan(3));
+        due("count", "2 2 1 3", store().count(0, 1, 800, 0, 0) + " " + store().count(2, 1, 800, 0, 0) + " "
+            + store().count(0, 3, 800, 800, 800) + " " + store().count(5, 1, 800, 800, 800));
+        due("find", "800 800 800 1", store().find(2, 801, 0) + " " + store().find(2, 801, 1) + " " + store().find(2, 801, 2)
+            + " " + store().find(2, 801, 3));
+        answers(0, "RULE { ?a :z ?b } => { ?a :y ?b }");
+        due("a rule takes it", 804, store().triples());
+    }
+
     private static void rules() {
         about("ROOM: 16 rules are there");
         for (int i = 0; i < 16; i++) {
@@ -513,6 +551,40 @@ public final class EdgesOfRoom extends Check {
         due("rules, triples", "15 209", store().rules() + " " + store().triples());
     }
 
+    private static void whatFollowedHolds() {
+        about("9: fault 6 changes nothing of what holds");
+        answers(0, "RULE { ?x :p ?y } => { ?x :q ?y . :b :r ?x }");
+        answers(90, "INSERT DATA { :a :p " + repeat("#", ",", 90) + " }");
+        due("it follows", "181 90", store().triples() + " " + store().said());
+        fails(6, 0, "RULE { ?x :p ?y . ?z :q ?w . ?x :p ?v } => { ?x :s ?z }");
+        due("holds", "181 90 95 1", state());
+        fails(6, 0, "INSERT { ?k :p ?y } WHERE { VALUES ?k { " + repeat(":k#", " ", 20) + " } ?x :p ?y }");
+        due("holds", "181 90 95 1", state());
+        fails(6, 0, "DELETE { ?x :p ?y } INSERT { ?k :t ?y , ?x } WHERE { VALUES ?k { " + repeat(":k#", " ", 22) + " } ?x :p ?y }");
+        due("holds", "181 90 95 1", state());
+        due("said", 90, store().count(2, 1, 2, 0, 0));
+        answers(0, "UNRULE 0");
+        due("said alone", "90 90", store().triples() + " " + store().said());
+    }
+
+    private static void numbersAreGivenAgain() {
+        about("9: fault 6 changes nothing of numbers of terms");
+        answers(99, "INSERT DATA { :a :p " + repeat("#", ",", 99) + " }");
+        answers(0, "RULE { ?a :p ?b . ?c :p ?d } => { ?b :k ?d }");
+        due("terms", 102, store().terms());
+        fails(6, 0, "INSERT DATA { :a :p \"new\"@en , :n1 , :n2 , 5000 , \"x\"^^<y> , 1.5 }");
+        due("terms", 102, store().terms());
+        fails(6, 0, "RULE { ?a :p ?b . ?c :p ?d } => { :n1 :k2 :n2 , 5000 }");
+        due("terms", "102 -1", store().terms() + " " + store().term(103));
+        answers(2, "INSERT DATA { :n2 :k2 5000 . :n1 :k3 \"new\"@en }");
+        due("terms", "<k2> <k3> <n1> <n2> 5000 \"new\"@en", written(store().term(103)) + " " + written(store().term(104)) + " "
+            + written(store().term(105)) + " " + written(store().term(106)) + " " + written(store().term(107)) + " " + written(store().term(108)));
+        gives("<n2> <k2> 5000", "SELECT * WHERE { VALUES (?a ?b ?c) { (:n2 :k2 5000) } ?a ?b ?c }");
+        answers(0, "INSERT DATA { :n2 :k2 5000 }");
+        answers(1, "INSERT DATA { :n1 :k3 \"x\"^^<y> }");
+        due("terms", "109 \"x\"^^<y>", store().terms() + " " + written(store().term(109)));
+    }
+
     // Part 7.
 
     /** A statement that makes exactly so many rows, groups and values; 500 at least. */
@@ -540,6 +612,24 @@ public final class EdgesOfRoom extends Check {
         due("made", 8000, store().made());
         fresh();
         fails(5, 0, making(8002));
+    }
+
+    private static void madeByFacts() {
+        about("7: at most 8000, with the triples that facts give");
+        String[] facts = {"CONSTRUCT { :a :b :c }", "INSERT { :a :b :c }", "DELETE { :a :b :c }", "DELETE { :a :b :c } INSERT { :d :e :f }",
+            "CONSTRUCT { :a :b :c . :a :b ?x }"};
+        int[] give = {1, 1, 1, 2, 41};
+        for (int i = 0; i < facts.length; i++) {
+            fresh();
+            int answer = run(facts[i] + " WHERE " + making(8000 - give[i]).substring(4));
+            due(facts[i] + ": full", "true 8000", (answer >= 0) + " " + store().made());
+            fresh();
+            fails(5, 0, facts[i] + " WHERE " + making(8001 - give[i]).substring(4));
+            due("nothing is said", "0 0 0 0", state());
+            fails(5, 0, making(8001));
+            answers(1, making(4000));
+            fails(5, 0, "ASK { }");
+        }
     }
 
     private static void life() {

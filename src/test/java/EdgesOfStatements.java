@@ -382,6 +382,8 @@ public final class EdgesOfStatements extends Check {
             failsAt(2, "ASK { FILTER (1 IN (1) @@" + one + " 1) }");
         }
         fresh();
+        answers(1, "ASK { FILTER (1 IN (1) && 1 IN (1) || 0) }");
+        answers(1, "ASK { FILTER (IF(1 IN (1), 1 + 1, 2) = COALESCE(1 IN (2) || ?x, 1 + 1) && 3 IN (1 IN (1), 1 + 2)) }");
         failsAt(2, "ASK { FILTER (1 IN (1) @@IN (1)) }");
         failsAt(2, "ASK { FILTER (1 IN (1) @@+ 1) }");
         failsAt(2, "ASK { FILTER (1 IN (1) @@* 1) }");
@@ -413,6 +415,9 @@ public final class EdgesOfStatements extends Check {
         worth("false", "!EXISTS { }");
         worth("true", "(EXISTS { }) IN (true)");
         worth("true", "EXISTS { SELECT * WHERE { } }");
+        worth("true", "EXISTS { FILTER (1 IN (1)) } = true");
+        worth("5", "IF(EXISTS { FILTER (1 = 2) }, 4, 2 + 3)");
+        worth("3", "IF(EXISTS { FILTER (1 = 1) }, 1 + 2, 4)");
         fresh();
         failsAt(2, "ASK { FILTER (EXISTS @@1) }");
         failsAt(2, "ASK { FILTER (NOT @@1) }");

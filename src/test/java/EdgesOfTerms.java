@@ -301,6 +301,8 @@ public final class EdgesOfTerms extends Check {
         termFails(2, "\"t\"@@^ ^<n>");
         termFails(2, "\"t\" @@^^<n>");
         termFails(2, "\"t\"@@^<n>");
+        termFails(2, "\"t\" @@^<n>");
+        termFails(2, "\"t\"@@=^<n>");
         failsAt(2, AT + "\"t\"@@^^");
         failsAt(2, AT + "\"t\"@@^^<n");
     }
