@@ -41,6 +41,8 @@ public final class EdgesOfExpressions extends Check {
         partsOfNone();
         beforeAndAfter();
         errorsIn();
+        eachRowAnew();
+        numbersOneAfterTheOther();
         finish();
     }
 
@@ -697,6 +699,56 @@ public final class EdgesOfExpressions extends Check {
         worth("\"a\"", "STRBEFORE(\"aab\", \"ab\")");
         worth("\"" + bytes("t", 63) + "\"", "STRBEFORE(\"" + bytes("t", 63) + "u\", \"u\")");
         worth("\"" + bytes("t", 63) + "\"", "STRAFTER(\"u" + bytes("t", 63) + "\", \"u\")");
+    }
+
+    /** Expressions of ?a, with one that they are worth something for, its worth, and one that is an ERROR. */
+    private static final String[][] ROWS = {
+        {"?a", "5", "5", "UNDEF"}, {"!?a", "5", "false", ":n"}, {"-(?a)", "5", "-5", ":n"}, {"?a + 1", "5", "6", "\"t\""},
+        {"?a - 1", "5", "4", "\"t\""}, {"?a * 2", "5", "10", "999999999999999999"}, {"?a + 1", "5", "6", "999999999999999999"},
+        {"1 / ?a", "2", "0.5", "0"}, {"?a / 0.5", "1", "2.0", "999999999999999999"}, {"?a = 5", "5", "true", "\"t\"^^<n>"},
+        {"?a != 5", "5", "false", "\"t\"^^<n>"}, {"?a < 6", "5", "true", ":n"}, {"?a >= 6", "5", "false", ":n"},
+        {"?a || 0", "1", "true", ":n"}, {"?a && 1", "1", "true", ":n"}, {"?a IN (5)", "5", "true", "UNDEF"},
+        {"?a NOT IN (5)", "6", "true", "UNDEF"}, {"IF(?a, 1, 2)", "5", "1", ":n"}, {"COALESCE(?a + 1)", "5", "6", ":n"},
+        {"CONCAT(?a, \"u\")", "\"t\"", "\"tu\"", "5"}, {"STRLEN(?a)", "\"t\"", "1", "5"}, {"UCASE(?a)", "\"t\"@en", "\"T\"@en", "5"},
+        {"LCASE(?a)", "\"T\"", "\"t\"", "5"}, {"STR(?a)", ":n", "\"n\"", "_:b"}, {"LANG(?a)", "\"t\"@en", "\"en\"", ":n"},
+        {"DATATYPE(?a)", "5", "<whole>", ":n"}, {"TONAME(?a)", "\"n\"", "<n>", "\"\""}, {"ISNAME(?a)", ":n", "true", "UNDEF"},
+        {"ISBLANK(?a)", "_:b", "true", "UNDEF"}, {"ISLITERAL(?a)", "5", "true", "UNDEF"}, {"ISNUMERIC(?a)", "5", "true", "UNDEF"},
+        {"ABS(?a)", "5", "5", ":n"}, {"CEIL(?a)", "1.5", "2.0", ":n"}, {"FLOOR(?a)", "1.5", "1.0", ":n"}, {"ROUND(?a)", "1.5", "2.0", ":n"},
+        {"STRSTARTS(?a, \"t\")", "\"t\"", "true", "5"}, {"STRENDS(?a, \"t\")", "\"t\"", "true", "5"},
+        {"CONTAINS(?a, \"t\")", "\"t\"", "true", "5"}, {"STRBEFORE(?a, \"u\")", "\"tu\"@en", "\"t\"@en", "5"},
+        {"STRAFTER(?a, \"u\")", "\"ut\"@en", "\"t\"@en", "5"}, {"SAMETERM(?a, 5)", "5", "true", "UNDEF"},
+        {"SUBSTR(\"abc\", ?a, 1)", "2", "\"b\"", "2.0"}, {"SUBSTR(?a, 2, 1)", "\"abc\"@en", "\"b\"@en", "5"}};
+
+    private static void eachRowAnew() {
+        about("8: what an expression is worth for a row does not rest on other rows");
+        for (String[] row : ROWS) {
+            fresh();
+            String both = row[2] + " - " + row[2] + " -";
+            gives(both, "SELECT ?b ?d ?f ?h WHERE { " + bind(row[0], "?a", "?b", row[1]) + bind(row[0], "?c", "?d", row[3])
+                + bind(row[0], "?e", "?f", row[1]) + bind(row[0], "?g", "?h", row[3]) + "}");
+            gives("- / " + row[2] + " / " + row[2], "SELECT ?b WHERE { VALUES (?a) { (" + row[1] + ")(" + row[3] + ")(" + row[1] + ") } BIND ("
+                + row[0] + " AS ?b) }");
+            gives("- / - / " + row[2], "SELECT ?b WHERE { VALUES (?a) { (" + row[3] + ")(" + row[1] + ")(" + row[3] + ") } BIND ("
+                + row[0] + " AS ?b) }");
+        }
+        fresh();
+        gives("- / 1 / 1", "SELECT ?b WHERE { VALUES ?a { 5 UNDEF 6 } BIND (IF(BOUND(?a), 1, ?a) AS ?b) }");
+        gives("- 1 / 4 1 / 5 1", "SELECT ?b (COUNT(*) AS ?n) WHERE { VALUES ?a { 4 :n 3 } BIND (?a + 1 AS ?b) } GROUP BY ?b");
+        gives("- / \"1 2\"", "SELECT (GROUPCONCAT(?b) AS ?g) WHERE { VALUES (?a ?b) { (1 1) (1 2) (2 UNDEF) } } GROUP BY ?a");
+        gives("- / 3", "SELECT (SUM(?b) AS ?g) WHERE { VALUES (?a ?b) { (1 1) (1 2) (2 :n) } } GROUP BY ?a");
+        gives("- / 1", "SELECT (MAX(?b) AS ?g) WHERE { VALUES (?a ?b) { (1 1) (2 UNDEF) } } GROUP BY ?a");
+    }
+
+    private static String bind(String expression, String from, String to, String given) {
+        return "VALUES (" + from + ") { (" + given + ") } BIND (" + expression.replace("?a", from) + " AS " + to + ") ";
+    }
+
+    private static void numbersOneAfterTheOther() {
+        about("8: numbers do not rest on those before");
+        String most = "999999999999999999";
+        gives("- 2 0.5 - 3.0 1.0", "SELECT (" + most + " * " + most + " AS ?a) (1 + 1 AS ?b) (1 / 2 AS ?c) (" + most + ".0 * " + most + ".0 AS ?d) "
+            + "(1.5 * 2 AS ?e) (SUM(0.5 + 0.5) AS ?f) WHERE { }");
+        gives("1 - 1", "SELECT (ABS(0 - 1) AS ?a) (" + most + " / 0.000000001 AS ?b) (3 - 2 AS ?c) WHERE { }");
     }
 
     private static void errorsIn() {

@@ -43,6 +43,7 @@ public final class EdgesOfGroups extends Check {
         extremes();
         groupConcat();
         groupConcatTooLong();
+        aggregatesBesideSelects();
         aggregatesOfNone();
         finish();
     }
@@ -305,6 +306,8 @@ public final class EdgesOfGroups extends Check {
         gives("1", "SELECT ?y WHERE { :a !(:p|:q) ?y }");
         gives("<b> / <c> / 1", "SELECT ?y WHERE { :a !:none ?y }");
         gives("", "SELECT ?y WHERE { :a !(:p|:v) ?y }");
+        gives("<a>", "SELECT ?x WHERE { ?x !:p 1 }");
+        gives("<a>", "SELECT ?x WHERE { ?x ^!^:q 1 }");
         gives("<d>", "SELECT ?y WHERE { :a !^:q ?y }");
         gives("", "SELECT ?y WHERE { :a !^:p ?y }");
         gives("<b> / <c> / <d>", "SELECT ?y WHERE { :a !(:v|^:q) ?y }");
@@ -471,6 +474,8 @@ public final class EdgesOfGroups extends Check {
         gives("2 0", "SELECT (COUNT(DISTINCT ISNUMERIC(?n)) AS ?k) (COUNT(DISTINCT ?z) AS ?m) WHERE { ?a :v ?n }");
         gives("<x> 2 2 / <y> 1 1 / <z> 1 1", "SELECT ?a (COUNT(*) AS ?n) (COUNT(DISTINCT *) AS ?m) WHERE { ?a :p ?b } GROUP BY ?a");
         gives("2 2", "SELECT (COUNT(DISTINCT *) AS ?m) (COUNT(DISTINCT ?a) AS ?n) WHERE { SELECT ?a WHERE { VALUES ?a { 1 2 } } ORDER BY DESC(?a) }");
+        gives("2 4", "SELECT (COUNT(DISTINCT *) AS ?m) (COUNT(*) AS ?n) WHERE { VALUES ?a { 1 2 1 2 } }");
+        gives("3 5", "SELECT (COUNT(DISTINCT *) AS ?m) (COUNT(*) AS ?n) WHERE { VALUES (?a ?b) { (1 UNDEF) (UNDEF 1) (1 UNDEF) (1 1) (UNDEF 1) } }");
         gives("2 3", "SELECT (COUNT(DISTINCT *) AS ?m) (COUNT(*) AS ?n) WHERE { VALUES ?a { UNDEF 1 1 } }");
     }
 
@@ -500,6 +505,12 @@ public final class EdgesOfGroups extends Check {
         gives(most, "SELECT (SUM(?a) AS ?s) WHERE { VALUES (?a) { (" + most + ") (" + most + ") (-" + most + ") } }");
         gives("0", "SELECT (SUM(?a) AS ?s) WHERE { VALUES (?a) { " + bytes("(" + most + ")", 10) + bytes("(-" + most + ")", 10) + " } }");
         gives("-", "SELECT (SUM(?a) AS ?s) WHERE { VALUES ?a { " + bytes(most + " ", 40) + " } }");
+        for (int many : new int[] {2, 9, 10, 18, 19, 36, 37, 38}) {
+            fresh();
+            gives("- -", "SELECT (SUM(?a) AS ?s) (AVG(?a) AS ?t) WHERE { VALUES ?a { " + bytes(most + " ", many) + " } }");
+            gives("- -", "SELECT (SUM(?a) AS ?s) (AVG(?a) AS ?t) WHERE { VALUES (?a) { " + bytes("(-" + most + ")", many) + " } }");
+        }
+        fresh();
         gives("-", "SELECT (SUM(?a) AS ?s) WHERE { VALUES ?a { 1000000000 0.000000001 } }");
         gives("999999999.999999999", "SELECT (SUM(?a) AS ?s) WHERE { VALUES ?a { 999999999 0.999999999 } }");
         gives("1000000000.0", "SELECT (SUM(?a) AS ?s) WHERE { VALUES ?a { 999999999 0.999999999 0.000000001 } }");
@@ -527,6 +538,10 @@ public final class EdgesOfGroups extends Check {
         gives("- - -", "SELECT (MIN(?a) AS ?s) (SAMPLE(?a) AS ?t) (MAX(?a) AS ?u) WHERE { VALUES ?a { UNDEF } }");
         gives("9 10", "SELECT (MIN(DISTINCT ?a) AS ?s) (MAX(DISTINCT ?a) AS ?u) WHERE { VALUES ?a { 10 9 10 } }");
         gives("\"10\" \"9\"", "SELECT (MIN(?a) AS ?s) (MAX(?a) AS ?u) WHERE { VALUES ?a { \"10\" \"9\" } }");
+        answers(2, "INSERT DATA { :a :p :b . :b :p 1 }");
+        gives("<a> <a> <b>", "SELECT (MIN(?a) AS ?s) (SAMPLE(?a) AS ?t) (MAX(?a) AS ?u) WHERE { ?a :p ?b }");
+        gives("<a> <a>", "SELECT (MIN(?a) AS ?s) (MAX(?a) AS ?u) WHERE { ?a :p :b }");
+        gives("<b> 1", "SELECT (MIN(?b) AS ?s) (MAX(?b) AS ?u) WHERE { ?a :p ?b }");
     }
 
     private static void groupConcat() {
@@ -555,6 +570,15 @@ public final class EdgesOfGroups extends Check {
             "SELECT (GROUPCONCAT(?a) AS ?s) WHERE { VALUES ?a { " + half + " \"" + bytes("t", 31) + "\" } }");
         gives("-", "SELECT (GROUPCONCAT(?a) AS ?s) WHERE { VALUES ?a { \"" + bytes("t", 64) + "\" \"\" } }");
         gives("\"" + bytes("t", 64) + "\"", "SELECT (GROUPCONCAT(?a ; \"\") AS ?s) WHERE { VALUES ?a { \"" + bytes("t", 64) + "\" \"\" } }");
+    }
+
+    private static void aggregatesBesideSelects() {
+        facts("6: the sets of a SELECT in an EXISTS are none of the set that is looked at");
+        String within = "EXISTS { SELECT (COUNT(*) AS ?c) WHERE { } HAVING (COUNT(*) = 1) }";
+        gives("true 4 true 4", "SELECT (" + within + " AS ?e) (COUNT(*) AS ?n) (" + within + " AS ?f) (COUNT(?b) AS ?m) WHERE { ?a :p ?b }");
+        gives("4 4", "SELECT (SUM(IF(" + within + ", 1, 0)) AS ?s) (COUNT(*) AS ?n) WHERE { ?a :p ?b }");
+        gives("4 4", "SELECT (COUNT(*) AS ?n) (COUNT(?b) AS ?m) WHERE { ?a :p ?b } HAVING (" + within + " && COUNT(*) = 4)");
+        gives("<x> 2 / <y> 1 / <z> 1", "SELECT ?a (COUNT(*) AS ?n) WHERE { ?a :p ?b } GROUP BY ?a ORDER BY (" + within + ") DESC(COUNT(*))");
     }
 
     private static void aggregatesOfNone() {
