@@ -186,6 +186,7 @@ public final class EdgesOfChanges extends Check {
         gives("<x> <y> 1 / <x> <y> 1.0", "CONSTRUCT { :x :y 1.0 , 1 } WHERE { }");
         gives("1 / 2", "SELECT ?x WHERE { VALUES ?x { 2 1 } } ORDER BY DESC(1)");
         gives("<a> <k> 1 / <b> <k> 2", "CONSTRUCT { ?x :k ?y } WHERE { SELECT ?x ?y WHERE { VALUES (?x ?y) { (:a 1) (:b 2) } } ORDER BY DESC(?x) }");
+        gives("<a> <k> 1 / <b> <k> 2", "CONSTRUCT { ?x :k ?y } WHERE { VALUES (?x ?y) { (:b 2) (:a 1) } { SELECT * WHERE { } ORDER BY DESC(1) } }");
         due("nothing is said by it", "4 4", store().triples() + " " + store().said());
     }
 

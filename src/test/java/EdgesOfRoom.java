@@ -34,6 +34,7 @@ public final class EdgesOfRoom extends Check {
         choicesOfAllRules();
         whatFollowedHolds();
         numbersAreGivenAgain();
+        numbersOfManyStay();
         made();
         madeByFacts();
         life();
@@ -583,6 +584,24 @@ public final class EdgesOfRoom extends Check {
         answers(0, "INSERT DATA { :n2 :k2 5000 }");
         answers(1, "INSERT DATA { :n1 :k3 \"x\"^^<y> }");
         due("terms", "109 \"x\"^^<y>", store().terms() + " " + written(store().term(109)));
+    }
+
+    private static void numbersOfManyStay() {
+        about("9: fault 6 changes nothing of numbers of terms, be there many of them");
+        answers(400, numbers(0, 20));
+        answers(300, numbers(400, 15));
+        answers(0, "RULE { ?a :q ?b . ?c :p ?d } => { ?b :k ?d }");
+        due("terms", 704, store().terms());
+        fails(6, 0, "INSERT DATA { :a :q " + range(1001, 1040, ",") + " }");
+        due("terms", 704, store().terms());
+        answers(40, "INSERT DATA { :a :p " + range(2001, 2040, ",") + " }");
+        due("terms", "744 2001 2040", store().terms() + " " + written(store().term(705)) + " " + written(store().term(744)));
+        answers(0, numbers(0, 20));
+        answers(0, numbers(400, 15));
+        answers(0, "INSERT DATA { :a :p " + range(2001, 2040, ",") + " }");
+        due("terms", "744 740 1", store().terms() + " " + store().said() + " " + store().rules());
+        answers(20, "INSERT DATA { :a :p " + range(1021, 1040, ",") + " }");
+        due("terms", 764, store().terms());
     }
 
     // Part 7.
